@@ -51,7 +51,7 @@ public final class OptimaWorks {
 
     // ---- the model ----
 
-    public int read() {
+    public int read() throws IllegalArgumentException {
         model.empty();
         if (solver != null) {
             solver.forget();
@@ -59,24 +59,15 @@ public final class OptimaWorks {
         if (prover != null) {
             prover.forget();
         }
-        if (!isRead()) {
+        if (reader == null) {
+            reader = new Reader(words, model);
+        }
+        if (!reader.readAll()) {
             model.empty();
             throw new IllegalArgumentException();
         }
         model.stands = true;
         return model.variables;
-    }
-
-    private boolean isRead() {
-        if (reader == null) {
-            reader = new Reader(words, model);
-        }
-        try {
-            reader.readAll();
-            return true;
-        } catch (IllegalArgumentException fault) {
-            return false;
-        }
     }
 
     public int fault(int what) {
@@ -86,7 +77,7 @@ public final class OptimaWorks {
         return what == 1 && words.fault != 0 ? words.place : NONE;
     }
 
-    public int variable(int k, int what) {
+    public int variable(int k, int what) throws IndexOutOfBoundsException {
         if (k < 0 || k >= model.variables) {
             throw new IndexOutOfBoundsException();
         }
@@ -102,7 +93,7 @@ public final class OptimaWorks {
         }
     }
 
-    public int row(int r, int w, int k) {
+    public int row(int r, int w, int k) throws IndexOutOfBoundsException {
         if (r < 0 || r >= model.rows) {
             throw new IndexOutOfBoundsException();
         }
@@ -118,7 +109,7 @@ public final class OptimaWorks {
         return k == NONE - 1 ? model.sign(r, w) : model.number(r, w, k);
     }
 
-    public int goal(int g, int k, boolean under) {
+    public int goal(int g, int k, boolean under) throws IndexOutOfBoundsException {
         if (g < 0 || g >= model.goals || k < NONE - 1 || k >= model.variables) {
             throw new IndexOutOfBoundsException();
         }
@@ -129,7 +120,7 @@ public final class OptimaWorks {
         return under ? model.goalUnder[at] : model.goalOver[at];
     }
 
-    public int write() {
+    public int write() throws IllegalStateException {
         needModel();
         sheetLength = 0;
         for (int k = 0; k < model.variables; k++) {
@@ -155,24 +146,24 @@ public final class OptimaWorks {
 
     // ---- answers ----
 
-    public boolean solve(boolean relaxed) {
+    public boolean solve(boolean relaxed) throws IllegalStateException {
         needModel();
         return theSolver().findAnswer(relaxed);
     }
 
-    public int value(int k) {
+    public int value(int k) throws IllegalStateException, IndexOutOfBoundsException {
         needAnswer(k, model.variables);
         solver.tellNumber(k);
         return putTold();
     }
 
-    public int best(int g) {
+    public int best(int g) throws IllegalStateException, IndexOutOfBoundsException {
         needAnswer(g, model.goals);
         solver.tellGoal(g);
         return putTold();
     }
 
-    public int way(int r) {
+    public int way(int r) throws IllegalStateException, IndexOutOfBoundsException {
         needAnswer(r, model.rows);
         return solver.firstWay(r);
     }
@@ -186,12 +177,12 @@ public final class OptimaWorks {
         }
     }
 
-    public int count() {
+    public int count() throws IllegalStateException {
         needModel();
         return theSolver().countRows();
     }
 
-    public int counted(int k, int v) {
+    public int counted(int k, int v) throws IllegalStateException {
         needModel();
         if (k < 0 || v < 0 || v >= model.variables || !model.whole[v] || k >= theSolver().countRows()) {
             return NONE * 1000;
@@ -208,7 +199,7 @@ public final class OptimaWorks {
 
     // ---- the proof ----
 
-    public int prove() {
+    public int prove() throws IllegalStateException {
         needModel();
         if (prover == null) {
             prover = new Prover(model, theSolver());
@@ -232,7 +223,7 @@ public final class OptimaWorks {
         }
     }
 
-    public int multiplier(int i) {
+    public int multiplier(int i) throws IllegalStateException, IndexOutOfBoundsException {
         if (prover == null || !prover.made) {
             throw new IllegalStateException();
         }
@@ -449,7 +440,7 @@ public final class OptimaWorks {
         return values;
     }
 
-    public int holder(int domain) {
+    public int holder(int domain) throws IllegalArgumentException, IllegalStateException {
         if (domain < 1 || domain > ValueDesk.ALL_VALUES) {
             throw new IllegalArgumentException();
         }
@@ -459,7 +450,7 @@ public final class OptimaWorks {
         return values.addHolder(domain);
     }
 
-    public int rule(int kind, int a, int b, int c) {
+    public int rule(int kind, int a, int b, int c) throws IllegalArgumentException, IllegalStateException {
         if (!theValues().isRule(kind, a, b, c)) {
             throw new IllegalArgumentException();
         }
@@ -509,7 +500,7 @@ public final class OptimaWorks {
         return clauses;
     }
 
-    public int clause(int wants, int wantsNot, int weight) {
+    public int clause(int wants, int wantsNot, int weight) throws IllegalArgumentException, IllegalStateException {
         boolean signs = wants >= 0 && wants < ClauseDesk.ROWS && wantsNot >= 0 && wantsNot < ClauseDesk.ROWS;
         if (!signs || (wants | wantsNot) == 0 || (wants & wantsNot) != 0 || weight < 0 || weight > 1000) {
             throw new IllegalArgumentException();
@@ -550,7 +541,7 @@ public final class OptimaWorks {
         return nets;
     }
 
-    public int arc(int from, int to, int room, int cost) {
+    public int arc(int from, int to, int room, int cost) throws IllegalArgumentException, IllegalStateException {
         boolean lengths = room >= 0 && room <= 1000 && cost >= 0 && cost <= 1000;
         if (!isNode(from) || !isNode(to) || !lengths || from == to) {
             throw new IllegalArgumentException();
@@ -578,23 +569,23 @@ public final class OptimaWorks {
         return theNets().dropArc();
     }
 
-    public int greatest(int s, int t) {
+    public int greatest(int s, int t) throws IndexOutOfBoundsException, IllegalArgumentException {
         needNodes(s, t);
         return theNets().fill(s, t);
     }
 
-    public int cut(int s, int t) {
+    public int cut(int s, int t) throws IndexOutOfBoundsException, IllegalArgumentException {
         needNodes(s, t);
         theNets().fill(s, t);
         return nets.reached;
     }
 
-    public int cheapest(int s, int t, int amount) {
+    public int cheapest(int s, int t, int amount) throws IndexOutOfBoundsException, IllegalArgumentException {
         needNodes(s, t);
         return theNets().leastCost(s, t, amount);
     }
 
-    public int path(int s, int t, int i) {
+    public int path(int s, int t, int i) throws IndexOutOfBoundsException, IllegalArgumentException {
         needNodes(s, t);
         return theNets().shortest(s, t, i);
     }
@@ -603,7 +594,7 @@ public final class OptimaWorks {
         return theNets().treeArcs();
     }
 
-    public int tour(int nodes, int i) {
+    public int tour(int nodes, int i) throws IllegalArgumentException {
         int many = Integer.bitCount(nodes);
         if (nodes < 0 || nodes >= 1 << NetDesk.NODES || many < 2 || many > NetDesk.STOPS) {
             throw new IllegalArgumentException();
@@ -687,11 +678,15 @@ public final class OptimaWorks {
         }
 
         void failHere(int what) {
-            fail(what, at);
+            fault = what;
+            place = at;
+            throw new IllegalArgumentException();
         }
 
         void failWord() {
-            fail(kind == NO_WORD ? BAD_BYTES : BAD_WORD, at);
+            fault = kind == NO_WORD ? BAD_BYTES : BAD_WORD;
+            place = at;
+            throw new IllegalArgumentException();
         }
 
         void begin() {
@@ -704,12 +699,16 @@ public final class OptimaWorks {
         void advance() {
             skipBlanks();
             at = next;
-            int letter = letterAt(next);
+            int letter = next < length ? tape[next] & 255 : NONE;
             if (letter == NONE) {
                 kind = END;
-            } else if (isLetter(letter)) {
+            } else if (letter >= 'a' && letter <= 'z' || letter >= 'A' && letter <= 'Z') {
                 takeName();
-            } else if (isDigit(letter)) {
+                kind = keywordOf(next - at);
+                if (kind == NONE) {
+                    kind = next - at > LONGEST_NAME ? NO_WORD : NAME;
+                }
+            } else if (letter >= '0' && letter <= '9') {
                 takeNumber();
             } else {
                 takeSign(letter);
@@ -721,18 +720,6 @@ public final class OptimaWorks {
                 failWord();
             }
             advance();
-        }
-
-        private int letterAt(int i) {
-            return i < 0 || i >= length ? NONE : tape[i] & 255;
-        }
-
-        private static boolean isLetter(int c) {
-            return c >= 'A' && c <= 'Z' || c >= 'a' && c <= 'z';
-        }
-
-        private static boolean isDigit(int c) {
-            return c >= '0' && c <= '9';
         }
 
         private void skipBlanks() {
@@ -751,44 +738,40 @@ public final class OptimaWorks {
 
         private void takeName() {
             name = 0;
-            for (; next < length && (isLetter(tape[next]) || isDigit(tape[next])); next++) {
-                name = name << 8 | tape[next];
-            }
-            int keyword = keywordOf(next - at);
-            if (keyword != NONE) {
-                kind = FIRST_KEYWORD + keyword;
-            } else {
-                kind = next - at > LONGEST_NAME ? NO_WORD : NAME;
+            boolean inside = true;
+            for (int i = next; i < length && inside; i++) {
+                int c = tape[i];
+                inside = c >= 'a' && c <= 'z' || c >= 'A' && c <= 'Z' || c >= '0' && c <= '9';
+                if (inside) {
+                    name = name << 8 | c;
+                    next++;
+                }
             }
         }
 
         private int keywordOf(int size) {
-            int which = 0;
-            int start = 0;
+            int which = FIRST_KEYWORD;
+            int matched = 0;
+            boolean same = true;
             for (int i = 0; i < KEYWORDS.length(); i++) {
-                if (KEYWORDS.charAt(i) == ' ') {
-                    if (i - start == size && isSame(start, size)) {
-                        return which;
-                    }
+                char c = KEYWORDS.charAt(i);
+                if (c != ' ') {
+                    same = same && matched < size && tape[at + matched] == c;
+                    matched++;
+                } else if (same && matched == size) {
+                    return which;
+                } else {
                     which++;
-                    start = i + 1;
+                    matched = 0;
+                    same = true;
                 }
             }
             return NONE;
         }
 
-        private boolean isSame(int start, int size) {
-            for (int i = 0; i < size; i++) {
-                if (tape[at + i] != KEYWORDS.charAt(start + i)) {
-                    return false;
-                }
-            }
-            return true;
-        }
-
         private void takeNumber() {
             number = 0;
-            for (; next < length && isDigit(tape[next]); next++) {
+            for (; next < length && tape[next] >= '0' && tape[next] <= '9'; next++) {
                 if (next - at < LONGEST_NUMBER) {
                     number = number * 10 + tape[next] - '0';
                 }
@@ -797,7 +780,7 @@ public final class OptimaWorks {
         }
 
         private void takeSign(int letter) {
-            int second = letterAt(next + 1);
+            int second = next + 1 < length ? tape[next + 1] : NONE;
             kind = letter == '.' && second == '.' ? DOTS
                 : letter == '<' && second == '=' ? AT_MOST
                 : letter == '>' && second == '=' ? AT_LEAST
@@ -839,6 +822,9 @@ public final class OptimaWorks {
         final int[] to = new int[VARIABLES];
         final boolean[] whole = new boolean[VARIABLES];
         final int[] ways = new int[ROWS];
+        /** Rows of one way alone: they are needs. */
+        int plainRows;
+        private final int[] plainRow = new int[ROWS];
         private final int[] kept = new int[ROWS * WAYS * WAY_SIZE];
         final int[] goalOver = new int[GOALS * NUMBERS];
         final int[] goalUnder = new int[GOALS * NUMBERS];
@@ -849,6 +835,7 @@ public final class OptimaWorks {
             stands = false;
             variables = 0;
             rows = 0;
+            plainRows = 0;
             goals = 0;
             differents = 0;
             cases = 1;
@@ -886,42 +873,27 @@ public final class OptimaWorks {
             return to[k] - from[k] + 1;
         }
 
-        /** Rows of one way alone are needs. */
-        int plainRows() {
-            int many = 0;
-            for (int r = 0; r < rows; r++) {
-                if (ways[r] == 1) {
-                    many++;
-                }
+        void addRow(int many) {
+            ways[rows] = many;
+            if (many == 1) {
+                plainRow[plainRows] = rows;
+                plainRows++;
             }
-            return many;
+            rows++;
         }
 
         int needs() {
-            return plainRows() + 2 * variables;
+            return plainRows + 2 * variables;
         }
 
         int needKind(int i) {
-            int behind = i - plainRows();
+            int behind = i - plainRows;
             return behind < 0 ? 0 : behind < variables ? 1 : 2;
         }
 
         int needOf(int i) {
-            int behind = i - plainRows();
-            return behind < 0 ? plainRow(i) : behind < variables ? behind : behind - variables;
-        }
-
-        private int plainRow(int i) {
-            int many = 0;
-            for (int r = 0; r < rows; r++) {
-                if (ways[r] == 1) {
-                    if (many == i) {
-                        return r;
-                    }
-                    many++;
-                }
-            }
-            return NONE;
+            int behind = i - plainRows;
+            return behind < 0 ? plainRow[i] : behind < variables ? behind : behind - variables;
         }
 
         boolean isEvenNeed(int i) {
@@ -974,7 +946,6 @@ public final class OptimaWorks {
         static final int NOT = 12;
         static final int NEST = 13;
         static final int COMPARE = 14;
-        static final int WAY = 15;
 
         /** More binders can't stand round one another: each sum is a FACTOR within others. */
         static final int BINDERS = 64;
@@ -1000,43 +971,45 @@ public final class OptimaWorks {
             worker = new Worker(words, model);
         }
 
-        void readAll() {
+        /** Whether there was no fault. */
+        boolean readAll() {
             makeRoom();
             worker.begin(tree, words.length);
             words.begin();
-            for (int turn = 0; turn < TAPE_ROOM && words.kind != Words.END; turn++) {
-                used = NODE;
-                depth = 0;
-                binders = 0;
-                ownName = 0;
-                worker.startDeclaration(words.at);
-                readDeclaration();
-            }
-        }
-
-        private void readDeclaration() {
-            switch (words.kind) {
-                case Words.SET:
-                    readSet();
-                    break;
-                case Words.PARAM:
-                    readParam();
-                    break;
-                case Words.VAR:
-                    readVar();
-                    break;
-                case Words.ROW:
-                    readRow();
-                    break;
-                case Words.DIFFERENT:
-                    readDifferent();
-                    break;
-                case Words.MIN:
-                case Words.MAX:
-                    readGoal();
-                    break;
-                default:
-                    words.failWord();
+            try {
+                for (int turn = 0; turn < TAPE_ROOM && words.kind != Words.END; turn++) {
+                    used = NODE;
+                    depth = 0;
+                    binders = 0;
+                    ownName = 0;
+                    worker.startDeclaration(words.at);
+                    switch (words.kind) {
+                        case Words.SET:
+                            readSet();
+                            break;
+                        case Words.PARAM:
+                            readParam();
+                            break;
+                        case Words.VAR:
+                            readVar();
+                            break;
+                        case Words.ROW:
+                            readRow();
+                            break;
+                        case Words.DIFFERENT:
+                            readDifferent();
+                            break;
+                        case Words.MIN:
+                        case Words.MAX:
+                            readGoal();
+                            break;
+                        default:
+                            words.failWord();
+                    }
+                }
+                return true;
+            } catch (IllegalArgumentException fault) {
+                return false;
             }
         }
 
@@ -1180,12 +1153,12 @@ public final class OptimaWorks {
                 truth = anyOf();
             }
             words.take(':');
-            int head = wayNode();
+            int head = comparison(true);
             int last = head;
             int ways = 1;
             for (; ways < Model.WAYS && words.kind == Words.OR; ways++) {
                 words.advance();
-                int following = wayNode();
+                int following = comparison(true);
                 tree[last + NEXT] = following;
                 last = following;
             }
@@ -1234,36 +1207,26 @@ public final class OptimaWorks {
             worker.doGoal(linear, max);
         }
 
-        private int wayNode() {
-            int made = node(WAY);
-            int side = linear();
-            tree[made + X] = side;
-            if (words.kind != Words.AT_MOST && words.kind != Words.AT_LEAST && words.kind != '=') {
-                words.failWord();
-            }
-            tree[made + MARK] = words.kind;
-            words.advance();
-            side = linear();
-            tree[made + Y] = side;
-            return made;
-        }
-
         /** The node's X and Y are sets (Y may be NONE), its Z the first binder's number. */
         private int binding() {
             int made = node(BINDING);
             tree[made + Z] = binders;
-            int set = takeBinder();
+            addBinder();
+            words.take(Words.IN);
+            int set = takeSetName();
             tree[made + X] = set;
             tree[made + Y] = NONE;
             if (words.kind == ',') {
                 words.advance();
-                set = takeBinder();
+                addBinder();
+                words.take(Words.IN);
+                set = takeSetName();
                 tree[made + Y] = set;
             }
             return made;
         }
 
-        private int takeBinder() {
+        private void addBinder() {
             if (words.kind != Words.NAME) {
                 words.failWord();
             }
@@ -1277,8 +1240,6 @@ public final class OptimaWorks {
             binder[binders] = words.name;
             binders++;
             words.advance();
-            words.take(Words.IN);
-            return takeSetName();
         }
 
         private int findBinder(long name) {
@@ -1288,14 +1249,6 @@ public final class OptimaWorks {
                 }
             }
             return NONE;
-        }
-
-        private boolean isValueName(long name) {
-            if (findBinder(name) != NONE) {
-                return true;
-            }
-            int found = worker.find(name);
-            return found != NONE && worker.kind[found] != Worker.SET && worker.kind[found] != Worker.ROW;
         }
 
         /** Goes one deeper; what else may be wrong with the word is told ahead of its being too deep. */
@@ -1317,7 +1270,7 @@ public final class OptimaWorks {
                 case '(':
                     break;
                 case Words.NAME:
-                    if (!isValueName(words.name)) {
+                    if (findBinder(words.name) == NONE && worker.findValue(words.name) == NONE) {
                         words.failHere(Words.UNKNOWN);
                     }
                     break;
@@ -1408,10 +1361,10 @@ public final class OptimaWorks {
                 words.advance();
                 return made;
             }
-            if (!isValueName(words.name)) {
+            int found = worker.findValue(words.name);
+            if (found == NONE) {
                 words.failHere(Words.UNKNOWN);
             }
-            int found = worker.find(words.name);
             int made = node(NAMED);
             tree[made + X] = found;
             words.advance();
@@ -1496,27 +1449,22 @@ public final class OptimaWorks {
                 tree[made + X] = inner;
                 words.take('}');
             } else {
-                made = comparison();
+                made = comparison(false);
             }
             return made;
         }
 
-        private int comparison() {
+        /** A WAY is one too, but with fewer signs. */
+        private int comparison(boolean way) {
             int made = node(COMPARE);
             int side = linear();
             tree[made + X] = side;
-            switch (words.kind) {
-                case Words.AT_MOST:
-                case Words.AT_LEAST:
-                case Words.UNLIKE:
-                case '<':
-                case '>':
-                case '=':
-                    tree[made + MARK] = words.kind;
-                    break;
-                default:
-                    words.failWord();
+            boolean strict = words.kind == Words.UNLIKE || words.kind == '<' || words.kind == '>';
+            boolean even = words.kind == '=' || words.kind == Words.AT_MOST || words.kind == Words.AT_LEAST;
+            if (!even && (way || !strict)) {
+                words.failWord();
             }
+            tree[made + MARK] = words.kind;
             words.advance();
             side = linear();
             tree[made + Y] = side;
@@ -1598,6 +1546,16 @@ public final class OptimaWorks {
             return NONE;
         }
 
+        /** Names of sets and rows are none of a value. */
+        int findValue(long name) {
+            for (int i = 0; i < names; i++) {
+                if (key[i] == name && kind[i] != SET && kind[i] != ROW) {
+                    return i;
+                }
+            }
+            return NONE;
+        }
+
         void addName(long name, int what, int first, int second, int start) {
             if (names >= NAMES) {
                 return;
@@ -1631,7 +1589,9 @@ public final class OptimaWorks {
         }
 
         void doVar(int fromNode, int toNode, int many, boolean whole) {
+            number(fromNode, 0);
             int from = farEnd(fromNode);
+            number(toNode, 0);
             int to = farEnd(toNode);
             if (to < from) {
                 words.fail(Words.GREAT, tree[toNode + Reader.AT]);
@@ -1652,7 +1612,6 @@ public final class OptimaWorks {
         }
 
         private int farEnd(int node) {
-            number(node, 0);
             if (under[0] != 1 || over[0] < -FARTHEST || over[0] > FARTHEST) {
                 words.fail(Words.GREAT, tree[node + Reader.AT]);
             }
@@ -1672,26 +1631,22 @@ public final class OptimaWorks {
                 if (binding != 0) {
                     bind(binding, i);
                 }
-                if (truth == 0 || anyHolds(truth, 0)) {
-                    addRow(head, ways);
+                if (truth != 0 && !anyHolds(truth, 0)) {
+                    continue;
                 }
-            }
-        }
-
-        private void addRow(int head, int ways) {
-            int r = model.rows;
-            if (r >= Model.ROWS) {
-                words.fail(Words.MANY, nameAt);
-            }
-            multiplyCases(ways);
-            model.ways[r] = ways;
-            model.rows++;
-            int node = head;
-            for (int w = 0; w < ways && node != 0; w++) {
-                linear(tree[node + Reader.X], 0);
-                linear(tree[node + Reader.Y], 1);
-                keepWay(r, w, node);
-                node = tree[node + Reader.NEXT];
+                int r = model.rows;
+                if (r >= Model.ROWS) {
+                    words.fail(Words.MANY, nameAt);
+                }
+                multiplyCases(ways);
+                model.addRow(ways);
+                int node = head;
+                for (int w = 0; w < ways && node != 0; w++) {
+                    linear(tree[node + Reader.X], 0);
+                    linear(tree[node + Reader.Y], 1);
+                    keepWay(r, w, node);
+                    node = tree[node + Reader.NEXT];
+                }
             }
         }
 
@@ -1746,9 +1701,11 @@ public final class OptimaWorks {
                 long crossed = divisor(scaleOver, under[k]);
                 long straight = divisor(size, scaleUnder);
                 int limit = k == 0 ? ALONE_IN_WAY : WITH_VARIABLE;
-                kept = product(scaleOver / crossed, size / straight, limit, at);
-                int times = product(scaleUnder / straight, under[k] / crossed, WITH_VARIABLE, at);
-                stretchWay(r, w, times, at);
+                kept = product(scaleOver / crossed, size / straight, limit);
+                int times = product(scaleUnder / straight, under[k] / crossed, WITH_VARIABLE);
+                if (kept > limit || times > WITH_VARIABLE || !stretchWay(r, w, times)) {
+                    words.fail(Words.GREAT, at);
+                }
                 long common = divisor(times, scaleUnder);
                 scaleOver *= times / common;
                 scaleUnder /= common;
@@ -1770,21 +1727,21 @@ public final class OptimaWorks {
             under[k] = bottom / common;
         }
 
-        private int product(long a, long b, int limit, int at) {
-            if (a > limit || b > limit || a * b > limit) {
-                words.fail(Words.GREAT, at);
-            }
-            return (int) (a * b);
+        /** Factors are above 0; what is above the limit is told as one more. */
+        private static int product(long a, long b, int limit) {
+            return a > limit || b > limit || a * b > limit ? limit + 1 : (int) (a * b);
         }
 
-        private void stretchWay(int r, int w, int times, int at) {
+        /** Whether no number of the way becomes too great. */
+        private boolean stretchWay(int r, int w, int times) {
             for (int k = 0; k < model.variables; k++) {
                 int number = model.number(r, w, k) * times;
                 if (number > WITH_VARIABLE || number < -WITH_VARIABLE) {
-                    words.fail(Words.GREAT, at);
+                    return false;
                 }
                 model.keepNumber(r, w, k, number);
             }
+            return true;
         }
 
         // ---- values ----
@@ -2123,10 +2080,6 @@ public final class OptimaWorks {
             below = below && length != 0;
         }
 
-        private long limbAt(int i) {
-            return i < length ? limb[i] : 0;
-        }
-
         int compareSize(Whole other) {
             if (length != other.length) {
                 return length < other.length ? -1 : 1;
@@ -2148,9 +2101,11 @@ public final class OptimaWorks {
                 below = other.below;
             } else if (compareSize(other) >= 0) {
                 takeSize(this, other);
+                trim();
             } else {
                 takeSize(other, this);
                 below = other.below;
+                trim();
             }
         }
 
@@ -2158,7 +2113,7 @@ public final class OptimaWorks {
             int many = Math.max(length, other.length);
             long carry = 0;
             for (int i = 0; i < many; i++) {
-                long sum = limbAt(i) + other.limbAt(i) + carry;
+                long sum = (i < length ? limb[i] : 0) + (i < other.length ? other.limb[i] : 0) + carry;
                 limb[i] = sum & MASK;
                 carry = sum >>> BITS;
             }
@@ -2174,12 +2129,11 @@ public final class OptimaWorks {
             int many = greater.length;
             long borrow = 0;
             for (int i = 0; i < many; i++) {
-                long rest = greater.limb[i] - lesser.limbAt(i) - borrow;
+                long rest = greater.limb[i] - (i < lesser.length ? lesser.limb[i] : 0) - borrow;
                 borrow = rest < 0 ? 1 : 0;
                 limb[i] = rest & MASK;
             }
             length = many;
-            trim();
         }
 
         /** This becomes a * b, and may be neither of them. */
@@ -2209,48 +2163,49 @@ public final class OptimaWorks {
                 return 0;
             }
             long rest = 0;
+            int used = 0;
             for (int i = length - 1; i >= 0; i--) {
                 long part = rest << BITS | limb[i];
                 limb[i] = part / by;
                 rest = part % by;
+                used = used == 0 && limb[i] != 0 ? i + 1 : used;
             }
-            trim();
+            length = used;
             return rest;
         }
 
-        /** This becomes this / by without what is left over, which is in rest; spare is written over. */
+        /**
+         * This becomes this / by without what is left over, which is in rest; spare is written over.
+         * As by hand; both are shifted so that a guess from the first limbs is at most 2 too great.
+         */
         void divide(Whole by, Whole rest, Whole spare) {
-            if (by.length == 0 || length >= LIMBS) {
+            int size = by.length;
+            int places = length - size;
+            if (size == 0 || length >= LIMBS) {
                 return;
             }
             boolean turned = below != by.below;
             boolean restBelow = below;
-            if (by.length == 1) {
+            if (size == 1) {
                 rest.setLong(divideSmall(by.limb[0]));
-            } else if (compareSize(by) < 0) {
+            } else if (places < 0) {
                 rest.copy(this);
-                setLong(0);
+                length = 0;
             } else {
-                divideLong(by, rest, spare);
+                int shift = Long.numberOfLeadingZeros(by.limb[size - 1]) - (64 - BITS);
+                spare.setShifted(by, shift);
+                rest.setShifted(this, shift);
+                for (int j = places; j >= 0; j--) {
+                    limb[j] = rest.takeTimes(spare, size, j);
+                }
+                length = places + 1;
+                trim();
+                rest.length = size;
+                rest.shiftBack(shift);
+                rest.trim();
             }
             below = turned && length != 0;
             rest.below = restBelow && rest.length != 0;
-        }
-
-        /** As by hand; both are shifted so that a guess from the first limbs is at most 2 too great. */
-        private void divideLong(Whole by, Whole rest, Whole spare) {
-            int size = by.length;
-            int shift = Long.numberOfLeadingZeros(by.limb[size - 1]) - (Long.SIZE - BITS);
-            spare.setShifted(by, shift);
-            rest.setShifted(this, shift);
-            int places = length - size;
-            for (int j = places; j >= 0; j--) {
-                limb[j] = rest.takeTimes(spare, size, j);
-            }
-            length = places + 1;
-            trim();
-            rest.length = size;
-            rest.shiftBack(shift);
         }
 
         /** Its limbs are one more than the other one's, the last one perhaps 0. */
@@ -2272,12 +2227,24 @@ public final class OptimaWorks {
                 limb[i] = part >>> shift;
                 carry = part & (1L << shift) - 1;
             }
-            trim();
         }
 
         /** How many times by, moved up j limbs, goes into this: it is taken off so often. */
         private long takeTimes(Whole by, int size, int j) {
-            long times = guess(by, size, j);
+            long first = by.limb[size - 1];
+            if (first == 0) {
+                return 0;
+            }
+            long head = limb[size + j] << BITS | limb[size + j - 1];
+            long times = head / first;
+            long over = head % first;
+            for (int turn = 0; turn < 3 && over <= MASK; turn++) {
+                if (times <= MASK && times * by.limb[size - 2] <= (over << BITS | limb[size + j - 2])) {
+                    break;
+                }
+                times--;
+                over += first;
+            }
             long carry = 0;
             for (int i = 0; i < size; i++) {
                 long part = limb[i + j] - times * by.limb[i] - carry;
@@ -2297,24 +2264,6 @@ public final class OptimaWorks {
             }
             limb[size + j] = limb[size + j] + carry & MASK;
             return times - 1;
-        }
-
-        private long guess(Whole by, int size, int j) {
-            long first = by.limb[size - 1];
-            if (first == 0) {
-                return 0;
-            }
-            long part = limb[size + j] << BITS | limb[size + j - 1];
-            long times = part / first;
-            long rest = part % first;
-            for (int turn = 0; turn < 3 && rest <= MASK; turn++) {
-                if (times <= MASK && times * by.limb[size - 2] <= (rest << BITS | limb[size + j - 2])) {
-                    break;
-                }
-                times--;
-                rest += first;
-            }
-            return times;
         }
     }
 
@@ -2483,9 +2432,8 @@ public final class OptimaWorks {
             return false;
         }
 
-        /** Makes a variable as little as can be, for good. */
-        void sinkForGood(int variable) {
-            sink(variable);
+        /** A variable that is as little as can be stays so. */
+        void keepSunk(int variable) {
             int row = rowOf(variable);
             if (row != NONE) {
                 shutWith(row);
@@ -2497,11 +2445,11 @@ public final class OptimaWorks {
         /** A variable that is 0 now stays so. */
         void drop(int variable) {
             int row = rowOf(variable);
-            if (row == NONE) {
-                shutOutside(variable);
-            } else {
-                holdAtNought(row);
+            int j = row == NONE ? NONE : columnWith(row);
+            if (j != NONE) {
+                exchange(row, j);
             }
+            shutOutside(variable);
         }
 
         boolean isInside(int variable) {
@@ -2538,16 +2486,12 @@ public final class OptimaWorks {
         }
 
         private int compareRoom(int i, int k, int j) {
-            // Both are above their column's cell times -1: what is left of one is as the crossed products are.
-            setProducts(cellAt(k, 0), cellAt(i, j), cellAt(i, 0), cellAt(k, j));
+            // The column's cells are below 0: what is left of one row is as the crossed products are.
+            first.setProduct(cellAt(k, 0), cellAt(i, j));
+            second.setProduct(cellAt(i, 0), cellAt(k, j));
             second.negate();
             first.add(second);
             return first.sign();
-        }
-
-        private void setProducts(Whole a, Whole b, Whole c, Whole d) {
-            first.setProduct(a, b);
-            second.setProduct(c, d);
         }
 
         /** The row's variable goes outside, the column's comes in. */
@@ -2556,15 +2500,24 @@ public final class OptimaWorks {
             boolean turned = pivot.below;
             turning.copy(pivot);
             turning.below = false;
+            boolean sameUnder = turning.compareSize(under) == 0;
             for (int k = 0; k < allRows; k++) {
-                if (k != i) {
-                    changeRow(k, i, j, turned);
+                Whole share = cellAt(k, j);
+                // A row without a share only changes its measure, and often not even that.
+                if (k == i || sameUnder && share.length == 0) {
+                    continue;
+                }
+                for (int c = 0; c <= columns; c++) {
+                    if (c != j && (c == 0 || !shut[c])) {
+                        changeCell(cellAt(k, c), share, cellAt(i, c), turned);
+                    }
+                }
+                if (turned) {
+                    share.negate();
                 }
             }
-            for (int k = 0; k <= columns; k++) {
-                if (k != j && !turned) {
-                    cellAt(i, k).negate();
-                }
+            for (int c = 0; c <= columns && !turned; c++) {
+                cellAt(i, c).negate();
             }
             pivot.copy(under);
             pivot.below = turned;
@@ -2572,22 +2525,6 @@ public final class OptimaWorks {
             int kept = inside[i];
             inside[i] = outside[j];
             outside[j] = kept;
-        }
-
-        private void changeRow(int k, int i, int j, boolean turned) {
-            Whole share = cellAt(k, j);
-            // A row without a share only changes its measure, and often not even that.
-            if (share.length == 0 && turning.compareSize(under) == 0) {
-                return;
-            }
-            for (int c = 0; c <= columns; c++) {
-                if (c != j && (c == 0 || !shut[c])) {
-                    changeCell(cellAt(k, c), share, cellAt(i, c), turned);
-                }
-            }
-            if (turned) {
-                share.negate();
-            }
         }
 
         /** The cell times the pivot, less (or, turned, and) its row's share times the pivot row's cell. */
@@ -2600,7 +2537,8 @@ public final class OptimaWorks {
                 changed.setLong(by == 0 ? sum : sum / by);
                 return;
             }
-            setProducts(changed, turning, share, across);
+            first.setProduct(changed, turning);
+            second.setProduct(share, across);
             if (!turned) {
                 second.negate();
             }
@@ -2665,7 +2603,7 @@ public final class OptimaWorks {
             scaleGoals();
             int cases = relaxed ? 1 : model.cases;
             for (int i = 0; i < cases; i++) {
-                if ((relaxed || choose(i)) && lay(relaxed, model.goals)) {
+                if ((relaxed || choose(i)) && lay(relaxed, model.goals) && settle(relaxed)) {
                     tryAnswer();
                 }
             }
@@ -2738,7 +2676,7 @@ public final class OptimaWorks {
             return true;
         }
 
-        /** Lays this case (or the relaxed model) out in the tableau: whether numbers keep it. */
+        /** Lays this case (or the relaxed model) out in the tableau: whether each way can hold by itself. */
         boolean lay(boolean relaxed, int goals) {
             int columns = 0;
             for (int k = 0; k < model.variables; k++) {
@@ -2748,7 +2686,7 @@ public final class OptimaWorks {
                     start[k] = model.from[k];
                 }
             }
-            int rows = relaxed ? model.plainRows() : model.rows;
+            int rows = relaxed ? model.plainRows : model.rows;
             tableau.begin(rows + columns, goals, columns);
             int laid = 0;
             for (int r = 0; r < model.rows; r++) {
@@ -2769,7 +2707,7 @@ public final class OptimaWorks {
             for (int g = 0; g < goals; g++) {
                 layGoal(laid + g, g);
             }
-            return settle(relaxed);
+            return true;
         }
 
         /** Puts a way into a row of the tableau: whether it can hold at all between from and to. */
@@ -2805,7 +2743,8 @@ public final class OptimaWorks {
             }
         }
 
-        private boolean settle(boolean relaxed) {
+        /** Whether numbers keep what is laid out; then the tableau tells such numbers. */
+        boolean settle(boolean relaxed) {
             int laid = 0;
             for (int r = 0; r < model.rows; r++) {
                 if (!relaxed || model.ways[r] == 1) {
@@ -2836,7 +2775,8 @@ public final class OptimaWorks {
             }
             for (int k = 0; k < model.variables; k++) {
                 if (column[k] != NONE) {
-                    tableau.sinkForGood(column[k] - 1);
+                    tableau.sink(column[k] - 1);
+                    tableau.keepSunk(column[k] - 1);
                 }
             }
             takeNumbers(trial);
@@ -2967,7 +2907,7 @@ public final class OptimaWorks {
             for (int i = 0; i < wholes && counted < countedCase.length; i++) {
                 boolean found = false;
                 for (int j = 0; j < combined && !found; j++) {
-                    found = choose(i * combined + j) && lay(false, 0);
+                    found = choose(i * combined + j) && lay(false, 0) && settle(false);
                 }
                 if (found) {
                     countedCase[counted] = i * combined;
@@ -3027,7 +2967,7 @@ public final class OptimaWorks {
                 return keptNeeds;
             }
             solver.scaleGoals();
-            if (solver.lay(true, Math.min(1, model.goals))) {
+            if (solver.lay(true, Math.min(1, model.goals)) && solver.settle(true)) {
                 findBest();
                 chooseColumns(false);
                 layMultipliers(false);
@@ -3036,7 +2976,15 @@ public final class OptimaWorks {
                 chooseColumns(true);
                 layMultipliers(true);
             }
-            leaveOut();
+            keptNeeds = 0;
+            for (int i = model.needs() - 1; i >= 0; i--) {
+                kept[i] = !canSink(i);
+                if (kept[i]) {
+                    keptNeeds++;
+                } else {
+                    dropNeed(i);
+                }
+            }
             takeMultipliers();
             made = true;
             return keptNeeds;
@@ -3069,8 +3017,7 @@ public final class OptimaWorks {
         private void findShortfall() {
             int last = model.variables + 1;
             int rows = model.variables;
-            int plain = model.plainRows();
-            for (int i = 0; i < plain; i++) {
+            for (int i = 0; i < model.plainRows; i++) {
                 rows += model.isEvenNeed(i) ? 2 : 1;
             }
             tableau.begin(rows, 0, last);
@@ -3169,18 +3116,6 @@ public final class OptimaWorks {
                 tableau.holdAtNought(i);
             }
             tableau.canKeep();
-        }
-
-        private void leaveOut() {
-            keptNeeds = 0;
-            for (int i = model.needs() - 1; i >= 0; i--) {
-                kept[i] = !canSink(i);
-                if (kept[i]) {
-                    keptNeeds++;
-                } else {
-                    dropNeed(i);
-                }
-            }
         }
 
         private boolean canSink(int i) {
