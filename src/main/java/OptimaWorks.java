@@ -2503,16 +2503,17 @@ public final class OptimaWorks {
             boolean sameUnder = turning.compareSize(under) == 0;
             for (int k = 0; k < allRows; k++) {
                 Whole share = cellAt(k, j);
-                // A row without a share only changes its measure, and often not even that.
-                if (k == i || sameUnder && share.length == 0) {
-                    continue;
-                }
-                for (int c = 0; c <= columns; c++) {
-                    if (c != j && (c == 0 || !shut[c])) {
-                        changeCell(cellAt(k, c), share, cellAt(i, c), turned);
+                for (int c = 0; c <= columns && k != i; c++) {
+                    Whole changed = cellAt(k, c);
+                    Whole across = cellAt(i, c);
+                    // Without a product to take off only the measure changes, and often not even that.
+                    boolean measure = share.length == 0 || across.length == 0;
+                    boolean stays = measure && (sameUnder || changed.length == 0);
+                    if (c != j && !stays && (c == 0 || !shut[c])) {
+                        changeCell(changed, share, across, turned);
                     }
                 }
-                if (turned) {
+                if (turned && k != i) {
                     share.negate();
                 }
             }
@@ -3193,6 +3194,7 @@ public final class OptimaWorks {
         private final int[] b = new int[RULES];
         private final int[] c = new int[RULES];
         private final int[] rulePairs = new int[RULES * VALUES];
+        private final int[] lastHolder = new int[RULES];
         /** What is left now, and for which rules it is (as bits; NONE if it is not done). */
         private final int[] now = new int[HOLDERS];
         private int doneFor = NONE;
@@ -3260,6 +3262,8 @@ public final class OptimaWorks {
             b[rules] = q;
             c[rules] = r;
             System.arraycopy(pairs, 0, rulePairs, rules * VALUES, VALUES);
+            lastHolder[rules] = what == ORDER ? Math.max(p, r)
+                : what == PAIRS ? Math.max(p, q) : 31 - Integer.numberOfLeadingZeros(p);
             rules++;
             change();
             return rules - 1;
@@ -3498,6 +3502,8 @@ public final class OptimaWorks {
                 keepListed();
                 return;
             }
+            // Values that are not left are in no row.
+            narrow((1 << rules) - 1);
             int at = 0;
             member[0] = NONE;
             for (int turn = 0; turn < STEPS && at >= 0 && listed < LISTED; turn++) {
@@ -3517,7 +3523,7 @@ public final class OptimaWorks {
 
         private int nextValue(int h) {
             for (int v = member[h] + 1; v < VALUES; v++) {
-                if ((domain[h] >> v & 1) != 0) {
+                if ((now[h] >> v & 1) != 0) {
                     return v;
                 }
             }
@@ -3539,18 +3545,11 @@ public final class OptimaWorks {
         /** Whether the values up to this holder keep the rules that have no holder behind it. */
         private boolean keepsAt(int h) {
             for (int r = 0; r < rules; r++) {
-                if (lastHolder(r) == h && !keeps(r)) {
+                if (lastHolder[r] == h && !keeps(r)) {
                     return false;
                 }
             }
             return true;
-        }
-
-        private int lastHolder(int r) {
-            if (kind[r] == ORDER) {
-                return Math.max(a[r], c[r]);
-            }
-            return kind[r] == PAIRS ? Math.max(a[r], b[r]) : 31 - Integer.numberOfLeadingZeros(a[r]);
         }
 
         private boolean keeps(int r) {
