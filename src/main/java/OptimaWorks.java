@@ -2271,13 +2271,15 @@ public final class OptimaWorks {
      * Rows that tell variables inside by variables outside, which count 0: under times the row's
      * variable is cell 0 and each other cell times its column's variable. No variable may be below
      * 0. All cells stay whole numbers, for they are determinants, and under divides each product
-     * of a step; the variable of the least number is always taken, so that no step comes again.
+     * of a step. The first steps are bold: the greatest cell is taken, which is soon there; then it
+     * is always the variable of the least number, so that the steps can't go round for ever.
      */
     private static final class Tableau {
         private static final int CELLS = 400;
         private static final int ROWS = 40;
         private static final int COLUMNS = 41;
         private static final int STEPS = 1000000;
+        private static final int BOLD_STEPS = 40;
 
         private final Whole[] cell = new Whole[CELLS];
         private final int[] inside = new int[ROWS];
@@ -2368,11 +2370,11 @@ public final class OptimaWorks {
         /** Whether numbers keep all rows; then the rows tell such numbers. */
         boolean canKeep() {
             for (int turn = 0; turn < STEPS; turn++) {
-                int i = lowestBelow();
+                int i = rowBelow(turn < BOLD_STEPS);
                 if (i == NONE) {
                     return true;
                 }
-                int j = lowestColumn(i, 1);
+                int j = columnOfSign(i, 1, turn < BOLD_STEPS);
                 if (j == NONE) {
                     return false;
                 }
@@ -2381,21 +2383,24 @@ public final class OptimaWorks {
             return false;
         }
 
-        private int lowestBelow() {
+        private int rowBelow(boolean bold) {
             int found = NONE;
             for (int i = 0; i < rows; i++) {
-                if (cellAt(i, 0).sign() < 0 && (found == NONE || inside[i] < inside[found])) {
+                Whole alone = cellAt(i, 0);
+                if (alone.sign() < 0 && (found == NONE
+                    || (bold ? alone.compareSize(cellAt(found, 0)) > 0 : inside[i] < inside[found]))) {
                     found = i;
                 }
             }
             return found;
         }
 
-        private int lowestColumn(int i, int sign) {
+        private int columnOfSign(int i, int sign, boolean bold) {
             int found = NONE;
             for (int j = 1; j <= columns; j++) {
-                boolean fits = !shut[j] && cellAt(i, j).sign() == sign;
-                if (fits && (found == NONE || outside[j] < outside[found])) {
+                Whole number = cellAt(i, j);
+                if (!shut[j] && number.sign() == sign && (found == NONE
+                    || (bold ? number.compareSize(cellAt(i, found)) > 0 : outside[j] < outside[found]))) {
                     found = j;
                 }
             }
@@ -2405,7 +2410,7 @@ public final class OptimaWorks {
         /** Makes a goal's row as little as can be, and lets nothing make it greater from then on. */
         void makeLeast(int goal) {
             for (int turn = 0; turn < STEPS; turn++) {
-                int j = lowestColumn(goal, -1);
+                int j = columnOfSign(goal, -1, turn < BOLD_STEPS);
                 int i = j == NONE ? NONE : tightest(j);
                 if (i == NONE) {
                     break;
@@ -2422,7 +2427,7 @@ public final class OptimaWorks {
                 if (row == NONE) {
                     return true;
                 }
-                int j = lowestColumn(row, -1);
+                int j = columnOfSign(row, -1, turn < BOLD_STEPS);
                 int i = j == NONE ? NONE : tightest(j);
                 if (i == NONE) {
                     return cellAt(row, 0).length == 0;
