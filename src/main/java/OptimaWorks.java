@@ -856,7 +856,9 @@ public final class OptimaWorks {
         /** Variables that are declared behind a row are in it too, with 0. */
         void clearWay(int r, int w) {
             int start = (r * WAYS + w) * WAY_SIZE;
-            Arrays.fill(kept, start, start + WAY_SIZE, 0);
+            for (int i = start; i < start + WAY_SIZE; i++) {
+                kept[i] = 0;
+            }
         }
 
         void keepNumber(int r, int w, int k, int number) {
@@ -1027,7 +1029,9 @@ public final class OptimaWorks {
             }
             int made = used;
             used += NODE;
-            Arrays.fill(tree, made, used, 0);
+            for (int i = made; i < used; i++) {
+                tree[i] = 0;
+            }
             tree[made + KIND] = kind;
             tree[made + AT] = words.at;
             return made;
@@ -2139,7 +2143,9 @@ public final class OptimaWorks {
         /** This becomes a * b, and may be neither of them. */
         void setProduct(Whole a, Whole b) {
             int many = Math.min(a.length + b.length, LIMBS);
-            Arrays.fill(limb, 0, many, 0);
+            for (int i = 0; i < many; i++) {
+                limb[i] = 0;
+            }
             for (int i = 0; i < a.length; i++) {
                 long carry = 0;
                 long factor = a.limb[i];
@@ -2192,7 +2198,10 @@ public final class OptimaWorks {
                 rest.copy(this);
                 length = 0;
             } else {
-                int shift = Long.numberOfLeadingZeros(by.limb[size - 1]) - (64 - BITS);
+                int shift = 0;
+                while (shift < BITS && by.limb[size - 1] << shift <= MASK >> 1) {
+                    shift++;
+                }
                 spare.setShifted(by, shift);
                 rest.setShifted(this, shift);
                 for (int j = places; j >= 0; j--) {
@@ -3268,7 +3277,7 @@ public final class OptimaWorks {
             c[rules] = r;
             System.arraycopy(pairs, 0, rulePairs, rules * VALUES, VALUES);
             lastHolder[rules] = what == ORDER ? Math.max(p, r)
-                : what == PAIRS ? Math.max(p, q) : 31 - Integer.numberOfLeadingZeros(p);
+                : what == PAIRS ? Math.max(p, q) : highest(p);
             rules++;
             change();
             return rules - 1;
@@ -3310,7 +3319,7 @@ public final class OptimaWorks {
                     if ((ruleBits >> r & 1) != 0) {
                         narrowBy(r);
                         if (isAnyEmpty()) {
-                            Arrays.fill(now, 0, holders, 0);
+                            Arrays.fill(now, 0);
                             return;
                         }
                     }
@@ -3368,9 +3377,10 @@ public final class OptimaWorks {
         private void narrowDifferent(int bits) {
             int many = takeMembers(bits);
             together[0] = 0;
-            for (int group = 1; group < 1 << many; group++) {
-                int lowest = member[Integer.numberOfTrailingZeros(group)];
-                together[group] = together[group & group - 1] | now[lowest];
+            for (int i = 0; i < many; i++) {
+                for (int group = 0; group < 1 << i; group++) {
+                    together[group | 1 << i] = together[group] | now[member[i]];
+                }
             }
             for (int group = 1; group < 1 << many; group++) {
                 int spread = Integer.bitCount(together[group]) - Integer.bitCount(group);
@@ -3382,14 +3392,30 @@ public final class OptimaWorks {
             }
         }
 
+        private static int highest(int bits) {
+            int found = NONE;
+            for (int v = 0; v < VALUES; v++) {
+                found = (bits >> v & 1) != 0 ? v : found;
+            }
+            return found;
+        }
+
+        private static int lowest(int bits) {
+            int found = 0;
+            while (found < VALUES && (bits >> found & 1) == 0) {
+                found++;
+            }
+            return found;
+        }
+
         private void narrowOrder(int i, int k, int j) {
             if (i == j) {
                 cutTo(i, k <= 0 ? ALL_VALUES : 0);
                 return;
             }
-            int most = 31 - Integer.numberOfLeadingZeros(now[j]) - k;
+            int most = highest(now[j]) - k;
             cutTo(i, most < 0 ? 0 : most >= VALUES ? ALL_VALUES : (2 << most) - 1);
-            int least = Integer.numberOfTrailingZeros(now[i]) + k;
+            int least = lowest(now[i]) + k;
             cutTo(j, least >= VALUES ? 0 : least <= 0 ? ALL_VALUES : ALL_VALUES & -1 << least);
         }
 
