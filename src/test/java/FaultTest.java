@@ -203,6 +203,8 @@ public final class FaultTest {
         fault(10, "set a=1..2;param p=sum{i in a}sum{j in a,^i in a}1;");
         fine("set a=1..2;param p=sum{i in a}i+sum{i in a}i;row i:1<=2;", 0);
         fine("set a=1..2;min sum{i in a}i;", 0);
+        fine("set a=1..2;param p=sum{i in a,j in a}i;row r[j in a,i in a]:i<=j;min sum{i in a}i;", 0);
+        fault(3, "set a=1..2;param p=sum{i in a}i;min ^i;");
     }
 
     private static void doing() {

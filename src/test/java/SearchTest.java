@@ -70,7 +70,57 @@ public final class SearchTest {
         for (int i = 0; i < 400; i++) {
             tryModel(random);
         }
+        for (int i = 0; i < 60; i++) {
+            tryGreatModel(random);
+        }
         C.finish();
+    }
+
+    /** Eight variables and great numbers: too many corners, but the proof tells that the answer is best. */
+    private static void tryGreatModel(Random random) {
+        StringBuilder text = new StringBuilder("set s=1..8;var v[s]from -999 to 999;");
+        int[] inside = new int[8];
+        for (int k = 0; k < 8; k++) {
+            inside[k] = random.nextInt(1999) - 999;
+        }
+        for (int r = 0; r < 12; r++) {
+            text.append("row r").append(r).append(":0");
+            int sum = 0;
+            for (int k = 0; k < 8; k++) {
+                int number = random.nextInt(199) - 99;
+                text.append(number < 0 ? "" : "+").append(number).append("*v[").append(k + 1).append("]");
+                sum += number * inside[k];
+            }
+            // A right side beyond what a way may have is drawn in, to the side where the row still holds inside.
+            int right = Math.max(-99999, Math.min(99999, sum));
+            String sign = right < sum ? ">=" : right > sum ? "<=" : r % 5 == 0 ? "=" : r % 2 == 0 ? "<=" : ">=";
+            text.append(sign).append(right).append(";");
+        }
+        if (random.nextInt(3) == 0) {
+            // More than from and to allow: there is no solution then.
+            text.append("row q:v[1]-97*v[2]<=-99999;");
+            text.delete(text.indexOf("row r11"), text.indexOf("row q"));
+        }
+        text.append(random.nextBoolean() ? "min 9998/9999" : "max 0");
+        int[] under = {97, 89, 83, 79, 73, 71, 67, 61};
+        for (int k = 0; k < 8; k++) {
+            text.append(random.nextBoolean() ? "+" : "-").append(random.nextInt(99) + 1);
+            text.append("/").append(under[k]).append("*v[").append(k + 1).append("]");
+        }
+        OptimaWorks x = new OptimaWorks();
+        Checks.tell(x, text.append(";").toString());
+        C.same("read()", x.read(), 8);
+        checkProof(x, text.substring(0, 100));
+        C.same("no whole ones, no ways", x.solve(false), x.solve(true));
+        Ratio[] place = new Ratio[8];
+        for (int k = 0; k < 8 && x.solve(true); k++) {
+            x.value(k);
+            place[k] = Ratio.read(Checks.outputOf(x));
+        }
+        for (int r = 0; r < x.about(3) && x.solve(true); r++) {
+            C.same("row " + r + " holds", side(x, r, 0).holds(place), true);
+            C.same("way(" + r + ")", x.way(r), 0);
+        }
     }
 
     private static void tryModel(Random random) {

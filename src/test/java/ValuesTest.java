@@ -144,6 +144,12 @@ public final class ValuesTest {
         OptimaWorks far = desk(32768, 32768, 32768, 32768, 32768, 32768, 32768, 32768, 32768, 65535);
         far.rule(2, 1023, 149, 200);
         left(c, "149 of 150", far, 32768, 32768, 32768, 32768, 32768, 32768, 32768, 32768, 32768, 0xc000);
+        OptimaWorks sixtyFour = desk(32768, 32768, 32768, 32768, 0b10011, 0b1001);
+        sixtyFour.rule(2, 63, 64, 64);
+        left(c, "64: 4 and 0, or 1 and 3", sixtyFour, 32768, 32768, 32768, 32768, 0b10010, 0b1001);
+        OptimaWorks far128 = desk(32768, 32768, 32768, 32768, 32768, 32768, 32768, 32768, 0b100000011, 0b10000001);
+        far128.rule(2, 1023, 128, 128);
+        left(c, "128: 8 and 0, or 1 and 7", far128, 32768, 32768, 32768, 32768, 32768, 32768, 32768, 32768, 0b100000010, 0b10000001);
         OptimaWorks parity = desk(5, 5, 5, 15);
         parity.rule(2, 15, 3, 3);
         left(c, "an odd sum", parity, 5, 5, 5, 10);
