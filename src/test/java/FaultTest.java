@@ -173,6 +173,13 @@ public final class FaultTest {
         fault(1, "param p=" + "(".repeat(12) + "^)" + ")".repeat(12) + ";");
         fault(3, "param p=" + "(".repeat(12) + "^q" + ")".repeat(12) + ";");
         fault(2, "param p=" + "(".repeat(12) + "^?" + ")".repeat(12) + ";");
+        fault(1, "param p=" + "(".repeat(12) + "^{");
+        fault(1, "param p=" + "(".repeat(12) + "^not");
+        fault(4, "param q=1;param p=" + "(".repeat(12) + "^q");
+        fault(4, "set a=1..2;row r[i in a]:" + "(".repeat(12) + "^i");
+        fault(4, "param p=" + "(".repeat(12) + "^sum");
+        fault(1, "row r if " + "{".repeat(25) + "^<");
+        fault(3, "row r if " + "{".repeat(25) + "^q");
         fault(4, "param p=" + "(".repeat(12) + "^(");
         fine("param p=" + "-".repeat(23) + "1;", 0);
         fault(4, "param p=" + "-".repeat(24) + "^1;");

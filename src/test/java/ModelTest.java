@@ -57,6 +57,14 @@ public final class ModelTest {
         c.same("sign 2", x.row(3, 2, NONE - 1), 1);
         c.same("number of way 2", x.row(3, 2, 2), 6);
         c.same("right side of way 2", x.row(3, 2, NONE), 1);
+        OptimaWorks eight = Checks.reading("set s=1..8;var a[s]from 0 to 9;row r:sum{i in s}((i+10)*a[i])=1 or 7>=a[8];max sum{i in s}(a[i]/i);");
+        for (int k = 0; k < 8; k++) {
+            c.same("of eight, " + k, eight.row(0, 0, k), k + 11);
+            c.same("of eight, way 1, " + k, eight.row(0, 1, k), k == 7 ? -1 : 0);
+            c.same("of eight, goal, " + k, eight.goal(0, k, true), k + 1);
+        }
+        c.same("of eight, sign", eight.row(0, 0, NONE - 1), 2);
+        c.same("of eight, right side", eight.row(0, 1, NONE), -7);
         c.badIndex("row(4, 0, 0)", () -> x.row(4, 0, 0));
         c.badIndex("row(-1, 0, 0)", () -> x.row(-1, 0, 0));
         c.badIndex("row(4, 0, NONE - 2)", () -> x.row(4, 0, NONE - 2));
@@ -156,6 +164,12 @@ public final class ModelTest {
         truth(c, "1>1", false);
         truth(c, "1=1", true);
         truth(c, "1<>1", false);
+        truth(c, "2<=1", false);
+        truth(c, "1>=2", false);
+        truth(c, "1<2", true);
+        truth(c, "2>1", true);
+        truth(c, "2=1", false);
+        truth(c, "2<>1", true);
         truth(c, "1/3<2/5", true);
         truth(c, "-1/3<-2/5", false);
         truth(c, "2/4=1/2", true);
@@ -194,6 +208,8 @@ public final class ModelTest {
         text(c, told + "max -a/2-1/3*b-5/7;", vars + "max - 1/2 * x0 - 1/3 * x1 - 5/7 ;\n");
         text(c, told + "min a;max -b;min 0;", vars + "min x0 ;\nmax - x1 ;\nmin 0 ;\n");
         text(c, told + "min -7/2;max 4;", vars + "min -7/2 ;\nmax 4 ;\n");
+        text(c, "var a from -999 to 999;row r:99*a<=-12345;row q:a=70605;max 98/97*a-9876/5;",
+            "var x0 from -999 to 999 ;\nrow r0 : 33 * x0 <= -4115 ;\nrow r1 : x0 = 70605 ;\nmax 98/97 * x0 - 9876/5 ;\n");
         OptimaWorks x = Checks.reading("var a from 0 to 1;");
         x.wipe();
         c.same("the model stays when the tape goes", x.write(), 21);

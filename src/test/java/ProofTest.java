@@ -60,6 +60,11 @@ public final class ProofTest {
         proof(c, "var a from 0 to 9;row r:2*a>=0;row q:a>=0;min a;", "1 0 0 0 | 0");
         proof(c, "var a from 3 to 3;min a;", "1 0 | 3");
         proof(c, "var a from 3 to 3;row r:a=3;max a;", "-1 0 0 | -3");
+        // All of forty multipliers can be above 0: even rows count both ways.
+        String forty = "set s=1..8;set t=1..12;var v[s]from 0 to 0;row r[i in t]:0=0;";
+        String rows = "0 ".repeat(12);
+        proof(c, forty + "min sum{i in s}v[i];", rows + "1 ".repeat(8) + "0 ".repeat(8) + "| 0");
+        proof(c, forty + "max sum{i in s}v[i];", rows + "0 ".repeat(8) + "1 ".repeat(8) + "| 0");
         proof(c, "var a from 0 to 9;row r:a<=0;row q:a>=0;row p:a=0;min a;", "0 1 0 0 0 | 0");
     }
 
