@@ -7,7 +7,7 @@ public final class DeskSearchTest {
 
     public static void main(String[] args) {
         Random random = new Random(20261116);
-        for (int i = 0; i < 300; i++) {
+        for (int i = 0; i < 2000; i++) {
             new Values(random).check();
         }
         for (int i = 0; i < 40; i++) {

@@ -112,6 +112,7 @@ public final class FaultTest {
         fault(2, "set ^abcdefghi=1..2;");
         fine("set abcdefgh=1..2;", 0);
         fine("set a2345678=1..2;", 0);
+        fine("set AZaz09=1..2;set Zz=1..2;set AZaz0=1..2;param p[AZaz09]=1,2;", 0);
         fault(2, "set ^a23456789=1..2;");
         fault(2, "^different1 x;");
         fault(2, "set a=^1234567..2;");

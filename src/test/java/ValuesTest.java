@@ -144,6 +144,12 @@ public final class ValuesTest {
         OptimaWorks far = desk(32768, 32768, 32768, 32768, 32768, 32768, 32768, 32768, 32768, 65535);
         far.rule(2, 1023, 149, 200);
         left(c, "149 of 150", far, 32768, 32768, 32768, 32768, 32768, 32768, 32768, 32768, 32768, 0xc000);
+        OptimaWorks exact = desk(8, 0b100100);
+        exact.rule(2, 3, 5, 5);
+        left(c, "3 and 2", exact, 8, 4);
+        OptimaWorks nought = desk(9, 1, 0b101100);
+        nought.rule(2, 7, 5, 5);
+        left(c, "0, 0 and 5, or 3, 0 and 2", nought, 9, 1, 0b100100);
         OptimaWorks sixtyFour = desk(32768, 32768, 32768, 32768, 0b10011, 0b1001);
         sixtyFour.rule(2, 63, 64, 64);
         left(c, "64: 4 and 0, or 1 and 3", sixtyFour, 32768, 32768, 32768, 32768, 0b10010, 0b1001);
