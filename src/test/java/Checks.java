@@ -1,4 +1,8 @@
+import java.io.IOException;
+import java.io.UncheckedIOException;
 import java.nio.charset.StandardCharsets;
+import java.nio.file.Files;
+import java.nio.file.Path;
 
 /** What the tests share: comparing answers with what is due, and telling texts to an object. */
 final class Checks {
@@ -6,7 +10,12 @@ final class Checks {
         long make();
     }
 
+    private static final Path DOCUMENT = Path.of("../shared/DOC.md");
+
     private final String name;
+    private String document;
+    private String sentence = "";
+    private int madeOfSentence;
     private int made;
     private int wrong;
 
@@ -14,11 +23,55 @@ final class Checks {
         this.name = name;
     }
 
-    void same(String what, long got, long due) {
+    /**
+     * The document's words that the checks from here on are about: they are told with what is wrong.
+     * They must stand in the document, and the ones before them must have been checked.
+     */
+    void sentence(String words) {
+        endSentence();
+        sentence = words;
+        if (document == null) {
+            document = shrunk(readDocument());
+        }
+        if (!document.contains(shrunk(words))) {
+            wrong("the document has no such words", "");
+        }
+    }
+
+    private void endSentence() {
+        if (!sentence.isEmpty() && madeOfSentence == 0) {
+            wrong("nothing was checked", "");
+        }
+        madeOfSentence = 0;
+    }
+
+    private static String readDocument() {
+        try {
+            return Files.readString(DOCUMENT);
+        } catch (IOException thrown) {
+            throw new UncheckedIOException(thrown);
+        }
+    }
+
+    private static String shrunk(String text) {
+        return text.replaceAll("\\s+", " ");
+    }
+
+    private void count() {
         made++;
+        madeOfSentence++;
+    }
+
+    private void wrong(String what, String told) {
+        wrong++;
+        String about = sentence.isEmpty() ? "" : " [" + sentence + "]";
+        System.out.println(name + about + ": " + what + told);
+    }
+
+    void same(String what, long got, long due) {
+        count();
         if (got != due) {
-            wrong++;
-            System.out.println(name + ": " + what + " answered " + got + ", due is " + due);
+            wrong(what, " answered " + got + ", due is " + due);
         }
     }
 
@@ -27,23 +80,19 @@ final class Checks {
     }
 
     void same(String what, String got, String due) {
-        made++;
+        count();
         if (!got.equals(due)) {
-            wrong++;
-            System.out.println(name + ": " + what + " answered \"" + got + "\", due is \"" + due + "\"");
+            wrong(what, " answered \"" + got + "\", due is \"" + due + "\"");
         }
     }
 
     void fails(String what, Class<? extends RuntimeException> due, Call call) {
-        made++;
+        count();
         try {
-            long got = call.make();
-            wrong++;
-            System.out.println(name + ": " + what + " answered " + got + ", due is " + due.getSimpleName());
+            wrong(what, " answered " + call.make() + ", due is " + due.getSimpleName());
         } catch (RuntimeException thrown) {
             if (thrown.getClass() != due) {
-                wrong++;
-                System.out.println(name + ": " + what + " threw " + thrown + ", due is " + due.getSimpleName());
+                wrong(what, " threw " + thrown + ", due is " + due.getSimpleName());
             }
         }
     }
@@ -67,6 +116,7 @@ final class Checks {
     }
 
     void finish() {
+        endSentence();
         System.out.println(name + ": " + made + " checks, " + wrong + " wrong");
         if (wrong != 0 || made == 0) {
             System.exit(1);

@@ -1,7 +1,7 @@
 /** Promises 5 and 6: read and fault; each fault that the document names, with its place. */
 public final class FaultTest {
     private static final Checks C = new Checks("FaultTest");
-    private static final OptimaWorks X = new OptimaWorks();
+    private static final Texts T = new Texts(C);
 
     public static void main(String[] args) {
         words();
@@ -18,33 +18,12 @@ public final class FaultTest {
         C.finish();
     }
 
-    /** The text has its fault where the mark ^ stands; without a mark at its end. */
     private static void fault(int kind, String marked) {
-        int place = marked.indexOf('^');
-        String text = marked.replace("^", "");
-        String name = shown(text);
-        X.wipe();
-        Checks.tell(X, text);
-        C.badArgument("read() of " + name, () -> X.read());
-        C.same("fault(0) of " + name, X.fault(0), kind);
-        C.same("fault(1) of " + name, X.fault(1), place < 0 ? text.length() : place);
+        T.fault(kind, marked);
     }
 
     private static void fine(String text, int variables) {
-        String name = shown(text);
-        X.wipe();
-        Checks.tell(X, text);
-        try {
-            C.same("read() of " + name, X.read(), variables);
-        } catch (IllegalArgumentException thrown) {
-            C.same("fault of " + name + " at " + X.fault(1), X.fault(0), 0);
-        }
-        C.same("fault(0) of " + name, X.fault(0), 0);
-        C.same("fault(1) of " + name, X.fault(1), OptimaWorks.NONE);
-    }
-
-    private static String shown(String text) {
-        return text.length() <= 120 ? text : text.substring(0, 50) + " .. " + text.substring(text.length() - 60);
+        T.fine(text, variables);
     }
 
     private static void words() {
@@ -344,16 +323,17 @@ public final class FaultTest {
     }
 
     private static void models() {
-        fine("var x from 0 to 1;", 1);
-        C.badIndex("fault(what)", () -> X.variable(1, 0));
-        C.same("fault(2)", X.fault(2), OptimaWorks.NONE);
-        C.same("fault(-1)", X.fault(-1), OptimaWorks.NONE);
-        fault(1, "^x");
-        C.same("fault(2) behind a fault", X.fault(2), OptimaWorks.NONE);
-        C.badIndex("the model is gone", () -> X.variable(0, 0));
-        C.badState("the model is gone", () -> X.write());
-        X.wipe();
-        C.same("the fault stays when the tape goes", X.fault(0), 1);
+        OptimaWorks x = Checks.reading("var x from 0 to 1;");
+        C.badIndex("one variable", () -> x.variable(1, 0));
+        C.same("fault(2)", x.fault(2), OptimaWorks.NONE);
+        C.same("fault(-1)", x.fault(-1), OptimaWorks.NONE);
+        Checks.tell(x, "x");
+        C.badArgument("read()", () -> x.read());
+        C.same("fault(2) behind a fault", x.fault(2), OptimaWorks.NONE);
+        C.badIndex("the model is gone", () -> x.variable(0, 0));
+        C.badState("the model is gone", () -> x.write());
+        x.wipe();
+        C.same("the fault stays when the tape goes", x.fault(0), 1);
         fine("var x from 0 to 1;var y from 0 to 1;", 2);
     }
 }
