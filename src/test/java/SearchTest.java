@@ -147,6 +147,9 @@ public final class SearchTest {
         checkAnswer(x, text.toString(), false);
         checkAnswer(x, text.toString(), true);
         checkProof(x, text.toString());
+        if (variables < 3 || random.nextInt(4) == 0) {
+            checkLeftOut(x, text.toString());
+        }
     }
 
     private static String linearText(Random random, int variables) {
@@ -372,6 +375,118 @@ public final class SearchTest {
             Ratio best = Ratio.read(Checks.outputOf(x));
             C.same("the best is proved, " + text, proved.toString(), (max ? best.turned() : best).toString());
         }
+    }
+
+    /** A need, taken as it is (sign 1) or, if it is even, the other way round: what it adds up to. */
+    record Share(int need, Ratio[] numbers, Ratio right) {
+    }
+
+    /** All needs that can be left out are found by trying all few needs that prove the same. */
+    private static void checkLeftOut(OptimaWorks x, String text) {
+        boolean solved = x.solve(true);
+        x.multiplier(OptimaWorks.NONE);
+        Ratio proved = Ratio.read(Checks.outputOf(x));
+        int variables = x.about(2);
+        boolean goals = solved && x.about(4) > 0;
+        boolean max = goals && x.goal(0, OptimaWorks.NONE - 1, false) == 1;
+        Ratio[] wanted = new Ratio[variables + 1];
+        for (int k = 0; k < variables; k++) {
+            Ratio number = goals ? goalNumber(x, 0, k) : Ratio.NOUGHT;
+            wanted[k] = max ? number.turned() : number;
+        }
+        // Without solutions the multipliers' sum counts as one number more.
+        wanted[variables] = solved ? Ratio.NOUGHT : Ratio.of(1);
+        Ratio alone = goals ? goalNumber(x, 0, OptimaWorks.NONE) : Ratio.NOUGHT;
+        Ratio right = proved.plus(max ? alone : alone.turned());
+        List<Integer> proofs = new ArrayList<>();
+        findProofs(shares(x, solved), 0, new ArrayList<>(), wanted, right, proofs);
+        int kept = (1 << x.about(7)) - 1;
+        for (int i = x.about(7) - 1; i >= 0; i--) {
+            int without = kept & ~(1 << i);
+            boolean out = proofs.stream().anyMatch(proof -> (proof & ~without) == 0);
+            kept = out ? without : kept;
+            C.same("need(" + i + ", 0), left out of " + text, x.need(i, 0), out ? 0 : 1);
+        }
+    }
+
+    private static List<Share> shares(OptimaWorks x, boolean solved) {
+        List<Share> shares = new ArrayList<>();
+        int variables = x.about(2);
+        for (int i = 0; i < x.about(7); i++) {
+            Side need = need(x, i);
+            for (int sign = need.sign() == 0 ? -1 : 1; sign >= (need.sign() == 1 ? 1 : -1); sign -= 2) {
+                Ratio[] numbers = new Ratio[variables + 1];
+                for (int k = 0; k < variables; k++) {
+                    numbers[k] = Ratio.of(sign * need.numbers()[k]);
+                }
+                numbers[variables] = Ratio.of(solved ? 0 : 1);
+                shares.add(new Share(i, numbers, Ratio.of(sign * need.right())));
+            }
+        }
+        return shares;
+    }
+
+    /** Adds each few shares that, times numbers of which none is below 0, are what is wanted; no more are ever needed. */
+    private static void findProofs(List<Share> shares, int from, List<Share> chosen, Ratio[] wanted, Ratio right, List<Integer> proofs) {
+        Ratio[] times = timesOf(chosen, wanted);
+        if (times != null) {
+            Ratio sum = Ratio.NOUGHT;
+            int bits = 0;
+            boolean below = false;
+            for (int i = 0; i < times.length; i++) {
+                sum = sum.plus(chosen.get(i).right().times(times[i]));
+                bits |= 1 << chosen.get(i).need();
+                below |= times[i].over().signum() < 0;
+            }
+            if (!below && sum.compareTo(right) == 0) {
+                proofs.add(bits);
+            }
+        }
+        for (int i = from; i < shares.size() && chosen.size() < wanted.length; i++) {
+            chosen.add(shares.get(i));
+            findProofs(shares, i + 1, chosen, wanted, right, proofs);
+            chosen.remove(chosen.size() - 1);
+        }
+    }
+
+    /** The numbers by which the shares add up to what is wanted, if there is just one such row of numbers. */
+    private static Ratio[] timesOf(List<Share> shares, Ratio[] wanted) {
+        int many = shares.size();
+        Ratio[][] m = new Ratio[wanted.length][many + 1];
+        for (int i = 0; i < wanted.length; i++) {
+            for (int j = 0; j < many; j++) {
+                m[i][j] = shares.get(j).numbers()[i];
+            }
+            m[i][many] = wanted[i];
+        }
+        for (int j = 0; j < many; j++) {
+            int pivot = j;
+            while (pivot < m.length && m[pivot][j].over().signum() == 0) {
+                pivot++;
+            }
+            if (pivot == m.length) {
+                return null;
+            }
+            Ratio[] row = m[pivot];
+            m[pivot] = m[j];
+            m[j] = row;
+            for (int i = 0; i < m.length; i++) {
+                Ratio share = i == j ? Ratio.NOUGHT : m[i][j].by(row[j]).turned();
+                for (int k = 0; k <= many && share.over().signum() != 0; k++) {
+                    m[i][k] = m[i][k].plus(row[k].times(share));
+                }
+            }
+        }
+        for (int i = many; i < m.length; i++) {
+            if (m[i][many].over().signum() != 0) {
+                return null;
+            }
+        }
+        Ratio[] times = new Ratio[many];
+        for (int j = 0; j < many; j++) {
+            times[j] = m[j][many].by(m[j][j]);
+        }
+        return times;
     }
 
     private static Side need(OptimaWorks x, int i) {
