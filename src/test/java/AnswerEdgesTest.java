@@ -313,6 +313,15 @@ public final class AnswerEdgesTest {
         for (int[] n : none) {
             C.same("counted(" + n[0] + ", " + n[1] + ")", x.counted(n[0], n[1]), -1000);
         }
+        OptimaWorks eight = Checks.reading("set s=1..8;var a[s]whole from 1 to 1;");
+        C.same("counted(0, 7) of eight", eight.counted(0, 7), 1);
+        C.same("counted(0, 8) of eight", eight.counted(0, 8), -1000);
+        eight.wipe();
+        Checks.tell(eight, "set s=1..2;var a[s]whole from 3 to 3;");
+        eight.read();
+        C.same("counted(0, 1) of two", eight.counted(0, 1), 3);
+        C.same("counted(0, 2) of two, though it was whole", eight.counted(0, 2), -1000);
+        C.same("counted(1, 1) of one row", eight.counted(1, 1), -1000);
         OptimaWorks full = Checks.reading("set s=1..6;var a[s]whole from 0 to 1;");
         for (int v = 0; v < 6; v++) {
             C.same("counted(63, " + v + ")", full.counted(63, v), 1);

@@ -8,6 +8,7 @@ public final class ClauseEdgesTest {
     public static void main(String[] args) {
         arguments();
         twentyFour();
+        signs();
         unsays();
         kept();
         leasts();
@@ -49,6 +50,19 @@ public final class ClauseEdgesTest {
         C.badState("clause number 24", () -> x.clause(1, 0, 1));
         C.same("clauses", x.truth(4), 24);
         C.badArgument("none such", () -> x.clause(0, 0, 1));
+    }
+
+    private static void signs() {
+        C.sentence("SIGNS 0 .. 11; CLAUSES, at most 24, each with signs that it wants and signs that it wants not (bits), and a WEIGHT 0 .. 1000 (0: it must be kept).");
+        for (int sign = 0; sign < 12; sign++) {
+            C.same("wanted, sign " + sign, desk(1 << sign, 0, 1).truth(1), 1 << sign);
+            C.same("not wanted, sign " + sign, desk(0, 1 << sign, 1, 4095, 0, 0).truth(1), sign == 0 ? 2 : 1);
+        }
+        C.badArgument("sign 12", () -> desk().clause(1 << 12, 0, 1));
+        C.badArgument("not sign 12", () -> desk().clause(0, 1 << 12, 1));
+        C.same("weight 1000", desk(1, 0, 1000, 0, 1, 0).truth(0), 1000);
+        C.same("weight 0 must be kept", desk(1, 0, 0, 0, 1, 1000).truth(0), 1000);
+        C.same("weight 1 need not be", desk(1, 0, 1, 0, 1, 1000).truth(0), 1);
     }
 
     private static void unsays() {

@@ -10,6 +10,7 @@ public final class DoingEdgesTest {
         readThenDone();
         order();
         truthsAsFar();
+        values();
         notLinear();
         nought();
         noNumber();
@@ -100,6 +101,23 @@ public final class DoingEdgesTest {
         T.fault(6, "row r if 1^/0=2/0:0<=1;");
         T.fault(6, "row r if 1=2^/0:0<=1;");
         T.fault(7, XY + "row r if ^x=2/0:0<=1;");
+    }
+
+    private static void values() {
+        C.sentence("A VALUE is linear: a number, and a number for each variable.");
+        OptimaWorks x = Checks.reading(XY + "min 3*(x-2*y+1/2)-(y-x)/2+4;var z from 0 to 1;");
+        int[][] due = {{7, 2}, {-13, 2}, {0, 1}};
+        for (int k = 0; k < due.length; k++) {
+            C.same("variable " + k, x.goal(0, k, false), due[k][0]);
+            C.same("variable " + k + ", under", x.goal(0, k, true), due[k][1]);
+        }
+        C.same("alone", x.goal(0, NONE, false), 11);
+        C.same("alone, under", x.goal(0, NONE, true), 2);
+        String eight = "set s=1..8;var v[s]from 0 to 1;min ";
+        OptimaWorks y = Checks.reading(eight + "sum{i in s}(v[i]*i)-sum{i in s if i>4}(2*i*v[i]);");
+        for (int k = 0; k < 8; k++) {
+            C.same("variable " + k + " of eight", y.goal(0, k, false), k < 4 ? k + 1 : -k - 1);
+        }
     }
 
     private static void notLinear() {

@@ -140,6 +140,11 @@ public final class ModelEdgesTest {
         }
         C.badIndex("row(12, 0, 7)", () -> most.row(12, 0, 7));
         C.badIndex("row(11, 0, 8)", () -> most.row(11, 0, 8));
+        OptimaWorks last = Checks.reading("set t=1..11;var a from 0 to 1;row r[i in t]:a<=i;row q:a<=12 or a>=13 or a=14;");
+        for (int w = 0; w < 3; w++) {
+            C.same("sign of way " + w + " of row 11", last.row(11, w, NONE - 1), w);
+            C.same("right side of way " + w + " of row 11", last.row(11, w, NONE), 12 + w);
+        }
         OptimaWorks three = Checks.reading("row r:0<=1 or 0>=2 or 0=-3;");
         for (int w = 0; w < 3; w++) {
             C.same("sign of way " + w, three.row(0, w, NONE - 1), w);

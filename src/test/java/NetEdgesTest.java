@@ -45,6 +45,14 @@ public final class NetEdgesTest {
     }
 
     private static void forty() {
+        C.sentence("NODES 0 .. 11; ARCS, at most 40, from a node to another one, with ROOM 0 .. 1000 and COST 0 .. 1000.");
+        for (int n = 0; n < 12; n++) {
+            OptimaWorks y = net(n, (n + 5) % 12, 1000, 1000);
+            C.same("room of " + n, y.greatest(n, (n + 5) % 12), 1000);
+            C.same("cost of " + n, y.path(n, (n + 5) % 12, NONE - 1), 1000);
+            int node = n;
+            C.badArgument("from " + n + " to itself", () -> y.arc(node, node, 1, 1));
+        }
         C.sentence("IllegalStateException: there are 40.");
         OptimaWorks x = net();
         for (int i = 0; i < 40; i++) {
@@ -117,6 +125,11 @@ public final class NetEdgesTest {
     }
 
     private static void cuts() {
+        C.sentence("THE CUT, nodes as bits. Exceptions likewise.");
+        C.same("node 11", net().cut(11, 0), 1 << 11);
+        C.same("node 0", net().cut(0, 11), 1);
+        C.badIndex("cut(12, 0)", () -> net().cut(12, 0));
+        C.badArgument("cut(3, 3)", () -> net().cut(3, 3));
         C.sentence("THE CUT: the nodes that can be reached from s over what a greatest flow leaves (arcs not full, and back over arcs with flow; the same for each such flow).");
         C.same("a full arc", net(0, 1, 5, 0).cut(0, 1), 1);
         C.same("s alone", net(0, 1, 3, 0, 1, 2, 3, 0).cut(0, 2), 1);
@@ -201,6 +214,15 @@ public final class NetEdgesTest {
     }
 
     private static void trees() {
+        C.sentence("Of the TREE: its arcs as bits.");
+        OptimaWorks bits = net();
+        for (int i = 0; i < 36; i++) {
+            bits.arc(0, 1, 0, 1000);
+        }
+        for (int i = 36; i < 40; i++) {
+            bits.arc(i - 30, i - 29, 0, i);
+            C.same("tree() of " + (i + 1), bits.tree(), 1 | (1L << i + 1) - (1L << 36));
+        }
         C.sentence("A TREE: arcs, taken as lines both ways, by cost, of equal ones by number, each that joins what is not joined yet.");
         C.same("no arcs", net().tree(), 0);
         C.same("one", net(0, 1, 0, 0).tree(), 1);
@@ -233,6 +255,19 @@ public final class NetEdgesTest {
     }
 
     private static void tours() {
+        C.sentence("A TOUR of a set of nodes with at most 8:");
+        OptimaWorks all = net();
+        for (int i = 0; i < 12; i++) {
+            all.arc(i, (i + 1) % 12, 0, 1);
+        }
+        for (int i = 1; i < 12; i++) {
+            all.arc(i, 0, 0, 10);
+        }
+        for (int many = 2; many <= 8; many++) {
+            C.same("tour of " + many, all.tour((1 << many) - 1, NONE - 1), many + 9);
+        }
+        C.badArgument("tour of 9", () -> all.tour(511, NONE - 1));
+        C.badArgument("tour of 1", () -> all.tour(1, NONE - 1));
         C.sentence("a row of all of them, from the least one, whose arcs (of several between two the cheapest, back to the first, too) cost least, of these the one that comes first.");
         tour("two", net(0, 1, 0, 3, 1, 0, 0, 4), 3, 7, 0, 1);
         tour("no way back", net(0, 1, 0, 3), 3, NONE);

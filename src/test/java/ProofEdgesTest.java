@@ -12,6 +12,7 @@ public final class ProofEdgesTest {
         turned();
         theGoal();
         leftOut();
+        proving();
         multipliers();
         shortfalls();
         shortfallMultipliers();
@@ -119,6 +120,20 @@ public final class ProofEdgesTest {
         proof("row r:0<=0;row q:0=0;min 1;", "0 0 | 1");
     }
 
+    private static void proving() {
+        C.sentence("a set of needs PROVES that G is at least g, its best, if no numbers keep all of them and have a lesser G.");
+        // Of a >= 0 and a + b >= 4 with b <= 4 the first alone proves a >= 0; nothing is wanted for a goal that is a number.
+        proof(AB + "row r:a+b>=4;min a;", "0 1 0 0 0 | 0");
+        proof(AB + "row r:a+b>=4;row q:b<=4;min a;", "1 1 0 0 0 0 | 0");
+        proof(AB + "row r:a+b>=4;row q:b<=3;min a;", "1 1 0 0 0 0 | 1");
+        proof(AB + "row r:a+b>=4;row q:b<=5;min a;", "0 0 1 0 0 0 | 0");
+        proof(AB + "row r:a+b>=4;min a+b-a-b;", "0 0 0 0 0 | 0");
+        C.sentence("needs that prove that t is at least that, in the same way;");
+        proof(AB + "row r:a>=10;row q:b>=11;", "0 1/2 0 0 0 1/2 | 1");
+        proof(AB + "row r:a>=11;row q:b>=11;", "1/2 0 0 0 1/2 0 | 1");
+        proof(AB + "row r:a>=11;row q:b>=10;", "1/2 0 0 0 1/2 0 | 1");
+    }
+
     private static void multipliers() {
         C.sentence("MULTIPLIERS are the numbers, for those that are kept (of >= none below 0), by which they, added up, tell G >= g, "
             + "but for G's number alone (there is just one such row of numbers).");
@@ -188,6 +203,15 @@ public final class ProofEdgesTest {
     }
 
     private static void needCalls() {
+        C.sentence("Of need i: whether the proof keeps it (what = 0: 1, else 0), the row or variable it is of (1), 0 a row, 1 from, 2 to (2).");
+        OptimaWorks y = Checks.reading(AB + "row r:a<=1 or b<=1;row q:a>=2;min a+b;");
+        y.prove();
+        int[][] all = {{1, 1, 0}, {0, 0, 1}, {1, 1, 1}, {0, 0, 2}, {0, 1, 2}};
+        for (int i = 0; i < all.length; i++) {
+            for (int what = 0; what < 3; what++) {
+                C.same("need(" + i + ", " + what + ")", y.need(i, what), all[i][what]);
+            }
+        }
         C.sentence("NONE without a proof since the latest read(), or if there is none such, or for another what.");
         OptimaWorks x = new OptimaWorks();
         C.same("need(0, 0) of a new object", x.need(0, 0), NONE);

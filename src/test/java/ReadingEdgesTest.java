@@ -6,6 +6,7 @@ public final class ReadingEdgesTest {
 
     public static void main(String[] args) {
         declarations();
+        commas();
         sets();
         params();
         vars();
@@ -43,6 +44,27 @@ public final class ReadingEdgesTest {
         // The shortest ones, as many as the tape has room for.
         String remarks = "# a remark\n".repeat(300);
         T.fine(remarks + "min 0;max 0;min 0;" + remarks.substring(0, 600), 0);
+    }
+
+    private static void commas() {
+        C.sentence("(where commas stand between parts below that are told so, they are not written)");
+        T.fault(1, "var x^, whole from 0 to 1;");
+        T.fault(1, "var x whole^, from 0 to 1;");
+        T.fault(1, "var x^, from 0 to 1;");
+        T.fault(1, "row r^, if 1<2:1<=2;");
+        T.fault(1, "row r if 1<2^,:1<=2;");
+        T.fault(1, "row r:1<=2^, or 1<=2;");
+        T.fault(1, "row r:1<=2^,;");
+        C.sentence("All is numbered from 0 on.");
+        OptimaWorks x = Checks.reading("var x from 3 to 4;row r:x<=4;min x;");
+        C.same("variable(0, 0)", x.variable(0, 0), 3);
+        C.same("row(0, 0, 0)", x.row(0, 0, 0), 1);
+        C.same("goal(0, 0, false)", x.goal(0, 0, false), 1);
+        C.same("first holder", x.holder(1), 0);
+        C.same("first rule", x.rule(0, 1, 0, 0), 0);
+        C.same("first clause", x.clause(1, 0, 1), 0);
+        C.same("first arc", x.arc(0, 1, 1, 1), 0);
+        T.fault(1, "^;");
     }
 
     private static void sets() {
@@ -232,6 +254,20 @@ public final class ReadingEdgesTest {
         T.fault(1, "min (1^];");
         T.fault(1, "min ^{1};");
         T.fault(1, "min ^[1];");
+        C.sentence("( LINEAR ); sum { BINDING } FACTOR, sum { BINDING if TRUTH } FACTOR.");
+        OptimaWorks y = Checks.reading("set a=2..4;min sum{i in a}i*10+1;min sum{i in a}(i*10+1);min sum{i in a if i<>3}-i;");
+        int[] sums = {91, 93, -6};
+        for (int g = 0; g < 3; g++) {
+            C.same("sum " + g, y.goal(g, NONE, false), sums[g]);
+        }
+        T.fault(1, "set a=2..4;min sum{i in a}^;");
+        T.fault(1, "set a=2..4;min sum{i in a}(i^;");
+        C.sentence("LINEAR: TERMs with + or - between.");
+        T.fine("min 1+2-3;", 0);
+        T.fault(1, "min 1+^;");
+        T.fault(1, "min 1-^;");
+        T.fault(1, "min 1+^+2;");
+        T.fault(1, "min 1 ^2;");
         C.sentence("TERM: FACTORs with * or / between, from the left.");
         OptimaWorks x = Checks.reading("min 12/2*3;min 12/2/3;min 2-3-4*5/2;");
         int[] due = {18, 2, -11};

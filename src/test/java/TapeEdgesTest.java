@@ -13,7 +13,9 @@ public final class TapeEdgesTest {
         ends();
         wipes();
         letters();
+        output();
         abouts();
+        calls();
         C.finish();
     }
 
@@ -206,6 +208,17 @@ public final class TapeEdgesTest {
         full.wipe();
         feedBlanks(full);
         C.same("end(20) behind a full tape", full.end(20), 20);
+        // What was on the tape does not go on behind what is there now, whatever the word.
+        String[][] pairs = {{"min 123456", "min 1"}, {"min sum", "min s"}, {"min 1<=2", "min 1<"}, {"set a=1..2", "set a=1."}, {"min 1#", "min 1"},
+            {"min 1;", "min 1"}, {"min 1      ;", "min 1"}, {"minimal", "min"}, {"different", "differen"}, {"min 9999999", "min 999999"}};
+        int[][] due = {{1, 5}, {3, 4}, {1, 5}, {2, 7}, {1, 5}, {1, 5}, {1, 5}, {1, 3}, {1, 0}, {1, 10}};
+        for (int i = 0; i < pairs.length; i++) {
+            OptimaWorks z = new OptimaWorks();
+            Checks.tell(z, pairs[i][0]);
+            z.wipe();
+            Checks.tell(z, pairs[i][1]);
+            fault(z, pairs[i][1] + " behind " + pairs[i][0], due[i][0], due[i][1]);
+        }
     }
 
     private static void letters() {
@@ -221,6 +234,54 @@ public final class TapeEdgesTest {
         x.best(0);
         C.same("letter(3) behind a longer output", x.letter(3), NONE);
         C.same("about(1)", x.about(1), 3);
+    }
+
+    private static void output() {
+        C.sentence("THE OUTPUT at most 30000");
+        // As long as a model can be written: as many numbers of two digits, ways and goals as there may be.
+        StringBuilder way = new StringBuilder();
+        StringBuilder goal = new StringBuilder();
+        StringBuilder wayDue = new StringBuilder();
+        StringBuilder goalDue = new StringBuilder();
+        StringBuilder due = new StringBuilder();
+        for (int k = 0; k < 8; k++) {
+            int number = 91 + k;
+            way.append("-").append(number).append("*v[").append(k).append("]");
+            goal.append("-").append(number - 1).append("/").append(number).append("*v[").append(k).append("]");
+            wayDue.append(" - ").append(number).append(" * x").append(k);
+            goalDue.append(" - ").append(number - 1).append("/").append(number).append(" * x").append(k);
+            due.append("var x").append(k).append(" from -999 to -999 ;\n");
+        }
+        way.append("<=-99999");
+        wayDue.append(" <= -99999");
+        for (int r = 0; r < 12; r++) {
+            due.append("row r").append(r).append(" :").append(wayDue).append(r < 6 ? " or" + wayDue : "").append(" ;\n");
+        }
+        due.append(("max" + goalDue + " - 9998/9999 ;\n").repeat(3));
+        OptimaWorks x = Checks.reading("set s=0..7;set t=1..6;var v[s]from -999 to -999;row r[i in t]:" + way + " or " + way
+            + ";row q[i in t]:" + way + ";" + ("max " + goal + "-9998/9999;").repeat(3));
+        C.same("write()", x.write(), due.length());
+        C.same("about(1)", x.about(1), due.length());
+        C.same("the output", Checks.outputOf(x), due.toString());
+    }
+
+    private static void calls() {
+        C.sentence("An object is used for at most 512 calls after it has been made;");
+        OptimaWorks x = new OptimaWorks();
+        for (int call = 2; call <= 400; call += 2) {
+            feedBlanks(x);
+            C.same("end(20), call " + call, x.end(20), call * 10);
+        }
+        for (int call = 401; call < 512; call++) {
+            C.same("end(20), call " + call, x.end(20), NONE);
+        }
+        C.same("read(), call 512", x.read(), 0);
+        OptimaWorks y = new OptimaWorks();
+        y.holder(15);
+        for (int call = 2; call < 512; call++) {
+            C.same("left(0), call " + call, y.left(0), 15);
+        }
+        C.same("holder(), call 512", y.holder(1), 1);
     }
 
     private static void abouts() {

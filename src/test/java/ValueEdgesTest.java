@@ -196,6 +196,11 @@ public final class ValueEdgesTest {
     }
 
     private static void twelveRules() {
+        C.sentence("A new RULE: its number. 0: set a.");
+        OptimaWorks first = desk(3, 3);
+        C.same("rule()", first.rule(0, 3, 7, 7), 0);
+        C.same("rule() again", first.rule(0, 2, -7, -7), 1);
+        C.same("left(0)", first.left(0), 3);
         C.sentence("RULES, at most 12:");
         OptimaWorks x = desk(ALL, ALL);
         for (int r = 0; r < 12; r++) {
@@ -511,6 +516,15 @@ public final class ValueEdgesTest {
         C.same("reason(0, 2): 0 and 2, though 3 tells it alone", y.reason(0, 2), 5);
         C.same("reason(2, 0): 2 is the first that tells it", y.reason(2, 0), 4);
         C.same("reason(2, 1)", y.reason(2, 1), 5);
+        C.sentence("The REASON why a value is not left to a holder, as bits of rules;");
+        OptimaWorks chain = desk(ALL, ALL, ALL, ALL, ALL);
+        for (int r = 0; r < 4; r++) {
+            chain.rule(1, r, 1, r + 1);
+        }
+        for (int v = 15; v > 11; v--) {
+            C.same("reason(0, " + v + ")", chain.reason(0, v), (1 << 16 - v) - 1);
+        }
+        C.same("reason(0, 11), left", chain.reason(0, 11), NONE);
         C.sentence("NONE if it is left, or was not there at first, or there is none such.");
         OptimaWorks z = desk(6, 15);
         z.rule(2, 1, 2, 2);
