@@ -120,6 +120,17 @@ public final class AnswerEdgesTest {
         answers(s + "max a+b+d;min d;max a-b;", "4 0 0");
         answers(s + "max a+b+d;min d;min a-b;", "0 4 0");
         answers(s + "max 0-a;max b;min d;", "0 4 0");
+        // A variable that is as little as can be stays so when the next ones are made less.
+        answers(AB + "row r:a+2*b>=4;", "0 2");
+        answers(AB + "row r:2*a+b>=4;", "0 4");
+        answers(AB + "row r:2*a+b>=6;", "1 4");
+        answers(AB + "var d from 0 to 4;row r:a+b+2*d>=4;", "0 0 2");
+        answers(AB + "var d from 0 to 4;row r:a+2*b+d>=7;", "0 3/2 4");
+        answers(AB + "var d from 0 to 4;row r:a+2*b+3*d>=7;max 0*a;", "0 0 7/3");
+        answers(AB + "var d from 0 to 4;row r:3*a+2*b+d>=22;", "10/3 4 4");
+        // Two ways to the same answer.
+        answers("set s=1..8;var v[s]from 1 to 2;row r:v[1]+v[8]>=3 or v[8]>=2 or v[1]<=1;", "1 1 1 1 1 1 1 1");
+        answers("set s=1..8;var v[s]from 1 to 2;row r:v[1]>=1 or v[8]>=1;max v[3];", "1 1 2 1 1 1 1 1");
         // The goals count in their order, whatever comes behind.
         answers(AB + "max a;min a;", "4 0");
         answers(AB + "min a;max a;", "0 0");

@@ -264,6 +264,11 @@ public final class ReadingEdgesTest {
         T.fault(1, "set a=2..4;min sum{i in a}(i^;");
         C.sentence("LINEAR: TERMs with + or - between.");
         T.fine("min 1+2-3;", 0);
+        OptimaWorks four = Checks.reading("min 1+20+300+4000;min 1-20+300-4000;min 2*3*5*7/10/3;");
+        int[] values = {4321, -3719, 7};
+        for (int g = 0; g < 3; g++) {
+            C.same("value " + g, four.goal(g, NONE, false), values[g]);
+        }
         T.fault(1, "min 1+^;");
         T.fault(1, "min 1-^;");
         T.fault(1, "min 1+^+2;");
@@ -336,6 +341,8 @@ public final class ReadingEdgesTest {
             C.same("or, and", Checks.reading("row r if " + a + " or " + b + " and " + d + ":0<=1;").about(3), p || q && r ? 1 : 0);
             C.same("and, or", Checks.reading("row r if " + a + " and " + b + " or " + d + ":0<=1;").about(3), p && q || r ? 1 : 0);
             C.same("and { or }", Checks.reading("row r if " + a + " and{" + b + " or " + d + "}:0<=1;").about(3), p && (q || r) ? 1 : 0);
+            C.same("and, and", Checks.reading("row r if " + a + " and " + b + " and " + d + ":0<=1;").about(3), p && q && r ? 1 : 0);
+            C.same("or, or", Checks.reading("row r if " + a + " or " + b + " or " + d + ":0<=1;").about(3), p || q || r ? 1 : 0);
             C.same("not, and", Checks.reading("row r if not " + a + " and " + b + ":0<=1;").about(3), !p && q ? 1 : 0);
             C.same("not, or", Checks.reading("row r if not " + a + " or " + b + ":0<=1;").about(3), !p || q ? 1 : 0);
             C.same("not { and }", Checks.reading("row r if not{" + a + " and " + b + "}:0<=1;").about(3), !(p && q) ? 1 : 0);
@@ -499,6 +506,13 @@ public final class ReadingEdgesTest {
         String p = "set a=1..1;param p[a]=1;param q[a,a]=1;";
         T.edge(p + "min " + "p[".repeat(11) + "1" + "]".repeat(11) + ";", 4, p + "min " + "p[".repeat(12) + "^1" + "]".repeat(12) + ";");
         T.edge(p + "min " + "q[1,".repeat(11) + "1" + "]".repeat(11) + ";", 4, p + "min " + "q[1,".repeat(11) + "q[^1,1]" + "]".repeat(11) + ";");
+        // What is as deep as can be is worked out as well: 1 + 2 * (1 + 2 * ( .. 1)) is 4095.
+        String value = "1+2*(".repeat(11) + "1" + shut;
+        OptimaWorks x = Checks.reading("var v from 0 to 9;min " + value + ";row r:0<=v+" + value + ";");
+        C.same("the deepest value", x.goal(0, NONE, false), 4095);
+        C.same("on the right side of a row", x.row(0, 0, NONE), 4095);
+        OptimaWorks y = Checks.reading("set a=1..2;set b=1..1;min sum{i in a}(1+2*sum{j in b}(1+2*sum{k in b}(1+2*sum{l in b}(1+2*sum{m in b}(1+2*sum{n in b}(i))))));");
+        C.same("the deepest sums", y.goal(0, NONE, false), 2 * 31 + 32 * 3);
         // Those beside one another do not count, nor those of another declaration.
         T.fine("min " + open + "1" + shut + "*" + open + "1" + shut + "+" + open + "1" + shut + ";max " + open + "1" + shut + ";", 0);
         T.fine("row r:" + open + "1" + shut + "<=" + open + "1" + shut + " or " + open + "1" + shut + "=1;", 0);

@@ -67,7 +67,7 @@ public final class SearchTest {
 
     public static void main(String[] args) {
         Random random = new Random(20261116);
-        for (int i = 0; i < 400; i++) {
+        for (int i = 0; i < 1500; i++) {
             tryModel(random);
         }
         for (int i = 0; i < 60; i++) {
