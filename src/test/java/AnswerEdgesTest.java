@@ -1,3 +1,5 @@
+import java.math.BigInteger;
+
 /** The edges of ANSWERS and of promises 11 to 16, a sentence of the document at a time. */
 public final class AnswerEdgesTest {
     private static final int NONE = OptimaWorks.NONE;
@@ -368,5 +370,22 @@ public final class AnswerEdgesTest {
         C.output("value(0)", y, y.value(0), "89/97");
         // 98/99 * 89/97 + 9997/9999, that is (8722 * 101 + 9997 * 97) / (9603 * 101), shortened by 3.
         C.output("best(0)", y, y.best(0), "616877/323301");
+        // Eight denominators, all alike, then without a common divisor: the second sum is beyond a long.
+        String eight = "set s=1..8;var v[s]from 0 to 999;";
+        OptimaWorks alike = Checks.reading(eight + "max sum{i in s}(98/99*v[i])-9998/9999;");
+        alike.solve(false);
+        // 98/99 * 7992 less 9998/9999, that is (98 * 7992 * 101 - 9998) / 9999, shortened by 11.
+        C.output("best(0), all alike", alike, alike.best(0), "7190438/909");
+        OptimaWorks unlike = Checks.reading(eight + "max 98/99*v[1]+97/98*v[2]+96/97*v[3]+94/95*v[4]+88/89*v[5]+82/83*v[6]+78/79*v[7]+72/73*v[8]+1/9973;");
+        unlike.solve(true);
+        BigInteger under = BigInteger.ONE;
+        BigInteger over = BigInteger.ZERO;
+        int[][] parts = {{98 * 999, 99}, {97 * 999, 98}, {96 * 999, 97}, {94 * 999, 95}, {88 * 999, 89}, {82 * 999, 83}, {78 * 999, 79}, {72 * 999, 73}, {1, 9973}};
+        for (int[] p : parts) {
+            over = over.multiply(BigInteger.valueOf(p[1])).add(under.multiply(BigInteger.valueOf(p[0])));
+            under = under.multiply(BigInteger.valueOf(p[1]));
+        }
+        BigInteger common = over.gcd(under);
+        C.output("best(0), unlike", unlike, unlike.best(0), over.divide(common) + "/" + under.divide(common));
     }
 }

@@ -87,6 +87,29 @@ public final class ClauseEdgesTest {
         full.unsay();
         C.same("clause number 23 again", full.clause(0, 1, 0), 23);
         C.same("truth(0): 23 are not kept", full.truth(0), 23);
+        // One that must be kept goes, and with it that it must be.
+        OptimaWorks must = desk(1, 0, 0);
+        must.unsay();
+        C.same("one of the same number", must.clause(1, 0, 7), 0);
+        must.clause(0, 1, 0);
+        C.same("truth(0): it need not be kept", must.truth(0), 7);
+        C.same("truth(1)", must.truth(1), 0);
+        must.unsay();
+        must.unsay();
+        must.clause(1, 0, 0);
+        must.clause(0, 1, 0);
+        C.same("truth(0): both must be", must.truth(0), NONE);
+        for (int i = 1; i < 23; i++) {
+            OptimaWorks later = desk();
+            for (int k = 0; k < i; k++) {
+                later.clause(2, 0, 1);
+            }
+            later.clause(1, 0, 0);
+            later.unsay();
+            C.same("clause number " + i + " again", later.clause(1, 0, 7), i);
+            later.clause(0, 1, 0);
+            C.same("truth(0): number " + i + " need not be kept", later.truth(0), 7);
+        }
     }
 
     private static void kept() {
@@ -166,6 +189,20 @@ public final class ClauseEdgesTest {
         C.same("none", desk().truth(3), 0);
         C.same("all can be kept", desk(1, 0, 1, 2, 1, 1).truth(3), 0);
         C.same("one more, and not", desk(1, 0, 1, 2, 1, 1, 0, 2, 1).truth(3), 7);
+        OptimaWorks first = desk();
+        OptimaWorks latest = desk();
+        for (int i = 0; i < 12; i++) {
+            first.clause(0, 1 << i, 1);
+            latest.clause(1 << i, 0, 1);
+        }
+        C.same("the first row alone keeps all", first.truth(3), 0);
+        C.same("the first row alone is a model", first.truth(2), 1);
+        C.same("the last row alone keeps all", latest.truth(3), 0);
+        C.same("the last row alone is a model", latest.truth(2), 1);
+        first.clause(4095, 0, 1);
+        C.same("and not the first row", first.truth(3), 8191);
+        latest.clause(0, 4095, 1);
+        C.same("and not the last row", latest.truth(3), 8191);
         OptimaWorks last = desk();
         for (int i = 0; i < 23; i++) {
             last.clause(1, 0, 1);

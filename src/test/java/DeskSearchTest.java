@@ -1,6 +1,6 @@
 import java.util.Random;
 
-/** Promises 25 to 28, 32, 35 to 38 and 40 on desks filled at random, against plain counting out. */
+/** Promises 25 to 28, 32 and 35 to 40 on desks filled at random, against plain counting out. */
 public final class DeskSearchTest {
     private static final Checks C = new Checks("DeskSearchTest");
     private static final int NONE = OptimaWorks.NONE;
@@ -16,7 +16,133 @@ public final class DeskSearchTest {
         for (int i = 0; i < 300; i++) {
             new Nets(random).check();
         }
+        for (int i = 0; i < 300; i++) {
+            sums(random);
+            crossings(random);
+        }
+        for (int i = 0; i < 100; i++) {
+            fullNet(random);
+        }
         C.finish();
+    }
+
+    /** Ten holders of few values each, some of them great: what a sum leaves of each. */
+    private static void sums(Random random) {
+        OptimaWorks x = new OptimaWorks();
+        int[] domain = new int[10];
+        for (int h = 0; h < 10; h++) {
+            int high = 15 - random.nextInt(3);
+            domain[h] = 1 << high | (random.nextInt(3) == 0 ? 1 << random.nextInt(16) : 0) | (random.nextInt(4) == 0 ? 1 : 0);
+            x.holder(domain[h]);
+        }
+        int lo = 60 + random.nextInt(90);
+        int hi = lo + random.nextInt(5);
+        int set = 1 + random.nextInt(1023);
+        x.rule(2, set, lo, hi);
+        int[] found = new int[10];
+        support(domain, set, new int[10], 0, lo, hi, found);
+        for (int h = 0; h < 10; h++) {
+            C.same("left() of a sum from " + lo + " to " + hi, x.left(h), found[h]);
+        }
+    }
+
+    private static void support(int[] domain, int set, int[] row, int h, int lo, int hi, int[] found) {
+        if (h == row.length) {
+            int sum = 0;
+            for (int i = 0; i < h; i++) {
+                sum += (set >> i & 1) * row[i];
+            }
+            for (int i = 0; i < h && sum >= lo && sum <= hi; i++) {
+                found[i] |= 1 << row[i];
+            }
+            return;
+        }
+        for (int v = 0; v < 16; v++) {
+            if ((domain[h] >> v & 1) != 0) {
+                row[h] = v;
+                support(domain, set, row, h + 1, lo, hi, found);
+            }
+        }
+    }
+
+    /** Arcs of room 1 between seven nodes, so that ways cross and flows must be given up again. */
+    private static void crossings(Random random) {
+        int[][] arc = new int[12][];
+        OptimaWorks x = new OptimaWorks();
+        for (int i = 0; i < arc.length; i++) {
+            int from = random.nextInt(6);
+            int to = (from + 1 + random.nextInt(6)) % 7;
+            arc[i] = new int[] {from, to, 1, random.nextInt(9)};
+            x.arc(from, to, 1, arc[i][3]);
+        }
+        int[] cheapest = new int[arc.length + 1];
+        java.util.Arrays.fill(cheapest, NONE);
+        for (int bits = 0; bits < 1 << arc.length; bits++) {
+            int[] over = new int[7];
+            int cost = 0;
+            for (int i = 0; i < arc.length; i++) {
+                int f = bits >> i & 1;
+                over[arc[i][0]] -= f;
+                over[arc[i][1]] += f;
+                cost += f * arc[i][3];
+            }
+            boolean flows = over[6] >= 0 && over[0] == -over[6];
+            for (int n = 1; n < 6; n++) {
+                flows = flows && over[n] == 0;
+            }
+            if (flows && (cheapest[over[6]] == NONE || cost < cheapest[over[6]])) {
+                cheapest[over[6]] = cost;
+            }
+        }
+        int greatest = 0;
+        for (int amount = 0; amount < cheapest.length; amount++) {
+            C.same("cheapest() of " + amount, x.cheapest(0, 6, amount), cheapest[amount]);
+            greatest = cheapest[amount] == NONE ? greatest : amount;
+        }
+        C.same("greatest()", x.greatest(0, 6), greatest);
+    }
+
+    /** As many arcs and nodes as there may be: what flows is the least room out of a set of nodes, and the tree goes by ranks. */
+    private static void fullNet(Random random) {
+        int[][] arc = new int[40][];
+        OptimaWorks x = new OptimaWorks();
+        int most = random.nextInt(3) == 0 ? 1000 : 1 + random.nextInt(4);
+        for (int i = 0; i < arc.length; i++) {
+            int from = random.nextInt(12);
+            int to = (from + 1 + random.nextInt(11)) % 12;
+            arc[i] = new int[] {from, to, random.nextInt(most + 1), random.nextInt(20)};
+            x.arc(from, to, arc[i][2], arc[i][3]);
+        }
+        int least = Integer.MAX_VALUE;
+        int common = 0;
+        for (int bits = 1; bits < 2048; bits += 2) {
+            int room = 0;
+            for (int[] a : arc) {
+                room += (bits >> a[0] & 1) != 0 && (bits >> a[1] & 1) == 0 ? a[2] : 0;
+            }
+            common = room < least ? bits : room == least ? common & bits : common;
+            least = Math.min(least, room);
+        }
+        C.same("greatest() of 40 arcs", x.greatest(0, 11), least);
+        C.same("cut() of 40 arcs", x.cut(0, 11), common);
+        C.same("tree() of 40 arcs", x.tree(), tree(arc));
+    }
+
+    /** An arc is of the tree if those ahead of it, by cost and number, do not join its ends. */
+    private static long tree(int[][] arc) {
+        long bits = 0;
+        for (int i = 0; i < arc.length; i++) {
+            int reached = 1 << arc[i][0];
+            for (int turn = 0; turn < 12; turn++) {
+                for (int j = 0; j < arc.length; j++) {
+                    boolean ahead = arc[j][3] < arc[i][3] || arc[j][3] == arc[i][3] && j < i;
+                    int ends = 1 << arc[j][0] | 1 << arc[j][1];
+                    reached |= ahead && (reached & ends) != 0 ? ends : 0;
+                }
+            }
+            bits |= (reached >> arc[i][1] & 1) == 0 ? 1L << i : 0;
+        }
+        return bits;
     }
 
     private static final class Values {

@@ -294,6 +294,13 @@ public final class DoingEdgesTest {
         T.edge(XY + "row r:x/9+y/11<=1;", 9, XY + "row r:^x/9+y/11<=1/13;");
         T.edge(XY + "row r:x/9=1/11;", 9, XY + "row r:^x/9=1/101;");
         T.edge(XY + "row r:20*x+999999<=-999981;", 9, XY + "row r:^20*x+999999<=-999999;");
+        // 65536 times 65536, 0 as an int, and 99999 times 99999.
+        T.edge(XY + "row r:x/65536<=1/65536;", 9, XY + "row r:^x/65536<=65536;");
+        T.edge(XY + "row r:x/65536<=99999/65536;", 9, XY + "row r:^x/65536<=-65536;");
+        T.edge(XY + "row r:x/99999<=1;", 9, XY + "row r:^x/99999<=99999;");
+        // The difference of two values has a denominator beyond an int.
+        T.edge(XY + "row r:1/1000/1000<=1/999999;", 9, XY + "row r:^x+1/1000/1000<=1/999999;");
+        T.edge(XY + "row r:x/1000/1000<=x/999999;", 9, XY + "row r:^x/1000/1000+y<=x/999999;");
         // Without variables there is 1, -1 or 0 alone.
         T.fine(XY + "row r:999999<=-999999;row q:0>=1/1000/1000;", 2);
         // Each way by itself.
@@ -503,6 +510,18 @@ public final class DoingEdgesTest {
         way("0=0", "0 0 = 0");
         way("5*u=0", "1 0 = 0");
         way("-5*u=0", "-1 0 = 0");
+        // The same denominators, or parts of one another, on both sides.
+        way("u/2<=u/4+1", "1 0 < 4");
+        way("u/2+v<=u/4", "1 4 < 0");
+        way("u+1/2<=3/4", "4 0 < 1");
+        way("u+1/2<=1/2", "1 0 < 0");
+        way("u/6+1/4>=u/10+v/15-1/6", "4 -4 > -25");
+        way("7/12*u=u/12+v/2", "1 -1 = 0");
+        // A difference of two values may have greater numbers than a value, if none is left of them.
+        way("1/1000/1000<=1/999999", "0 0 < 1");
+        way("1/999999<=1/1000/1000", "0 0 < -1");
+        way("u/1000/1000<=u/999999", "-1 0 < 0");
+        way("u/1000/1000+v/999999>=u/999999+v/1000/1000", "-1 1 > 0");
     }
 
     private static void cases(String text, int due) {

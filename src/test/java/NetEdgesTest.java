@@ -13,6 +13,7 @@ public final class NetEdgesTest {
         flows();
         cuts();
         costs();
+        backOver();
         ways();
         wayCalls();
         trees();
@@ -83,6 +84,39 @@ public final class NetEdgesTest {
         }
         full.unarc();
         C.same("arc number 39 again", full.arc(0, 1, 1, 1), 39);
+        // What went counts nowhere, and what comes instead does.
+        OptimaWorks ring = net(0, 1, 3, 5, 1, 0, 3, 6);
+        int[][] gone = {{0, 1, 9, 1}, {1, 0, 9, 1}, {0, 2, 9, 1}, {2, 1, 9, 1}};
+        for (int[] g : gone) {
+            ring.arc(g[0], g[1], g[2], g[3]);
+            ring.unarc();
+            ringOfTwo("behind " + g[0] + "-" + g[1], ring);
+        }
+        ring.arc(0, 2, 9, 1);
+        ring.arc(2, 1, 9, 1);
+        C.same("both there, cost", ring.path(0, 1, NONE - 1), 2);
+        ring.unarc();
+        C.same("one there, cost", ring.path(0, 1, NONE - 1), 5);
+        C.same("one there, tree()", ring.tree(), 5);
+        ring.unarc();
+        ringOfTwo("behind both", ring);
+    }
+
+    /** All that a net of 0-1 with room 3 and cost 5 and of 1-0 with room 3 and cost 6 answers. */
+    private static void ringOfTwo(String what, OptimaWorks x) {
+        C.same("greatest(0, 1) " + what, x.greatest(0, 1), 3);
+        C.same("greatest(0, 2) " + what, x.greatest(0, 2), 0);
+        C.same("cut(0, 1) " + what, x.cut(0, 1), 1);
+        C.same("cut(0, 2) " + what, x.cut(0, 2), 3);
+        C.same("cheapest(0, 1, 3) " + what, x.cheapest(0, 1, 3), 15);
+        C.same("cheapest(0, 1, 4) " + what, x.cheapest(0, 1, 4), NONE);
+        C.same("path(0, 1), cost " + what, x.path(0, 1, NONE - 1), 5);
+        C.same("path(0, 1), nodes " + what, x.path(0, 1, NONE - 2), 2);
+        C.same("path(1, 0), cost " + what, x.path(1, 0, NONE - 1), 6);
+        C.same("path(0, 2), nodes " + what, x.path(0, 2, NONE - 2), 0);
+        C.same("tree() " + what, x.tree(), 1);
+        C.same("tour(3), cost " + what, x.tour(3, NONE - 1), 11);
+        C.same("tour(7), cost " + what, x.tour(7, NONE - 1), NONE);
     }
 
     private static void nodes() {
@@ -168,6 +202,60 @@ public final class NetEdgesTest {
         // The cheapest way for one must be given up for two.
         C.same("one", net(0, 1, 1, 1, 1, 2, 1, 0, 2, 3, 1, 1, 0, 2, 1, 4, 1, 3, 1, 4).cheapest(0, 3, 1), 2);
         C.same("two", net(0, 1, 1, 1, 1, 2, 1, 0, 2, 3, 1, 1, 0, 2, 1, 4, 1, 3, 1, 4).cheapest(0, 3, 2), 10);
+    }
+
+    /** The arcs with other names for the nodes, and told from another one on. */
+    private static OptimaWorks renamed(int[] names, int start, int... told) {
+        int[] moved = new int[told.length];
+        for (int i = 0; i < told.length; i += 4) {
+            int at = (i + 4 * start) % told.length;
+            moved[at] = names[told[i]];
+            moved[at + 1] = names[told[i + 1]];
+            moved[at + 2] = told[i + 2];
+            moved[at + 3] = told[i + 3];
+        }
+        return net(moved);
+    }
+
+    /** Whichever way a flow takes first, it must be given up in part: node names and the order of arcs count nothing. */
+    private static void backOver() {
+        int[] crossed = {0, 1, 1, 1, 1, 3, 1, 1, 3, 5, 1, 1, 0, 2, 1, 5, 2, 3, 1, 0, 1, 4, 1, 0, 4, 5, 1, 5};
+        int[] full = {0, 1, 1, 0, 1, 3, 1, 0, 3, 5, 1, 0, 0, 2, 1, 0, 2, 3, 1, 0};
+        int[] costly = {0, 1, 1, 1, 1, 2, 1, 1, 2, 3, 1, 1, 0, 2, 1, 5, 1, 3, 1, 5, 0, 1, 1, 20, 2, 3, 1, 20};
+        // Another arc to 1 costs less than 0-2-1 if going back cost something, but more than it does cost.
+        int[] dearer = {0, 1, 1, 1, 1, 2, 1, 1, 2, 3, 1, 1, 0, 2, 1, 5, 1, 3, 1, 5, 0, 1, 1, 5};
+        for (int shift = 0; shift < 6; shift++) {
+            for (int turned = 0; turned < 2; turned++) {
+                int[] names = new int[6];
+                for (int i = 0; i < 6; i++) {
+                    names[i] = 3 + (turned == 0 ? i + shift : 11 - i + shift) % 6;
+                }
+                for (int start = 0; start < 7; start++) {
+                    C.sentence("GREATEST: what comes out of s, less what comes in, at most.");
+                    OptimaWorks x = renamed(names, start, crossed);
+                    C.same("0-1-3-5 gives way to 0-1-4-5 and 0-2-3-5", x.greatest(names[0], names[5]), 2);
+                    C.same("s alone is cut off", x.cut(names[0], names[5]), 1 << names[0]);
+                    C.sentence("and back over arcs with flow; the same for each such flow");
+                    int due = 1 << names[0] | 1 << names[1] | 1 << names[2] | 1 << names[3];
+                    C.same("either way is left by the other", renamed(names, start, full).cut(names[0], names[5]), due);
+                    C.sentence("CHEAPEST: the least cost of a flow of an amount (each arc's flow times cost).");
+                    int[] two = {0, 3, 12, NONE};
+                    for (int amount = 0; amount < two.length; amount++) {
+                        C.same("crossed, " + amount, x.cheapest(names[0], names[5], amount), two[amount]);
+                    }
+                    OptimaWorks z = renamed(names, start, dearer);
+                    int[] most = {0, 3, 12, NONE};
+                    for (int amount = 0; amount < most.length; amount++) {
+                        C.same("dearer, " + amount, z.cheapest(names[0], names[3], amount), most[amount]);
+                    }
+                    OptimaWorks y = renamed(names, start, costly);
+                    int[] three = {0, 3, 12, 53, NONE};
+                    for (int amount = 0; amount < three.length; amount++) {
+                        C.same("costly, " + amount, y.cheapest(names[0], names[3], amount), three[amount]);
+                    }
+                }
+            }
+        }
     }
 
     private static void way(String what, OptimaWorks x, int s, int t, int cost, int... due) {
@@ -278,6 +366,15 @@ public final class NetEdgesTest {
         tour("of equal ones the first", net(ring), 7, 3, 0, 1, 2);
         ring[3] = 2;
         tour("the cheaper one, though later", net(ring), 7, 3, 0, 2, 1);
+        // All rows cost nothing: no node comes twice, and the first row is the one in order.
+        OptimaWorks free = net();
+        for (int i = 0; i < 36; i++) {
+            if (i / 6 != i % 6) {
+                free.arc(5 - i / 6, 5 - i % 6, 0, 0);
+            }
+        }
+        tour("all cost nothing", free, 63, 0, 0, 1, 2, 3, 4, 5);
+        tour("four that cost nothing", free, 0b110101, 0, 0, 2, 4, 5);
         tour("over others is no arc", net(0, 3, 0, 1, 3, 1, 0, 1, 1, 0, 0, 1), 3, NONE);
         OptimaWorks eight = net();
         for (int i = 0; i < 8; i++) {

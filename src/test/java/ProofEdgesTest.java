@@ -143,6 +143,8 @@ public final class ProofEdgesTest {
         proof(AB + "row r:a-b=2;max b;", "1 0 0 1 0 | -7");
         proof(AB + "row r:b-a=2;max a;", "1 0 0 0 1 | -7");
         proof(AB + "row r:b-a=-2;min a;", "-1 0 1 0 0 | 2");
+        proof("set s=1..8;var v[s]from 0 to 9;max sum{i in s}(98/99*v[i])+1/9999;",
+            "0 0 0 0 0 0 0 0 98/99 98/99 98/99 98/99 98/99 98/99 98/99 98/99 | -64787/909");
         proof("set s=1..8;var v[s]from 0 to 5;min v[1]/97+v[2]/89+v[3]/83+v[4]/79+v[5]/73+v[6]/71+v[7]/67+v[8]/61;",
             "1/97 1/89 1/83 1/79 1/73 1/71 1/67 1/61 0 0 0 0 0 0 0 0 | 0");
     }

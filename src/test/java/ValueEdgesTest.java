@@ -285,6 +285,61 @@ public final class ValueEdgesTest {
         left("150", most, top, top, top, top, top, top, top, top, top, top);
         most.rule(2, 1023, 151, 200);
         left("151", most, 0, 0, 0, 0, 0, 0, 0, 0, 0, 0);
+        greatSums();
+    }
+
+    /** So many holders that are 15, then one that may be all: the sum from lo to hi leaves it these values. */
+    private static void behind(int many, int lo, int hi, int due) {
+        OptimaWorks x = desk();
+        for (int i = 0; i < many; i++) {
+            x.holder(32768);
+        }
+        x.holder(ALL);
+        x.rule(2, (2 << many) - 1, lo, hi);
+        left("from " + lo + " to " + hi, x, due == 0 ? 0 : 32768);
+        C.same("what is behind " + many + " holders, from " + lo + " to " + hi, x.left(many), due);
+    }
+
+    private static void greatSums() {
+        for (int sum = 60; sum <= 75; sum++) {
+            behind(4, sum, sum, 1 << sum - 60);
+        }
+        behind(4, 59, 59, 0);
+        behind(4, 76, 76, 0);
+        behind(4, 63, 65, 0b111000);
+        behind(4, 0, 64, 0b11111);
+        behind(4, 64, 200, ALL & -1 << 4);
+        for (int sum = 120; sum <= 135; sum++) {
+            behind(8, sum, sum, 1 << sum - 120);
+        }
+        behind(8, 119, 119, 0);
+        behind(8, 136, 136, 0);
+        behind(8, 127, 129, 0b111 << 7);
+        behind(9, 150, 200, 32768);
+        behind(9, 151, 200, 0);
+        behind(9, 128, 128, 0);
+        behind(9, 192, 200, 0);
+        behind(0, 64, 64, 0);
+        behind(1, 79, 79, 0);
+        OptimaWorks nought = desk(1, 32);
+        nought.rule(2, 3, 69, 69);
+        left("0 and 5 are not 69", nought, 0, 0);
+        OptimaWorks steps = desk(32768, 32768, 32768, 32768, 8, 7);
+        steps.rule(2, 63, 64, 64);
+        left("63 and 1", steps, 32768, 32768, 32768, 32768, 8, 2);
+        OptimaWorks last = desk(32768, 32768, 32768, 32768, 32768, 32768, 32768, 32768, 256, ALL);
+        last.rule(2, 1023, 200, 200);
+        left("128 and at most 15 are not 200", last, 0, 0, 0, 0, 0, 0, 0, 0, 0, 0);
+        // 0, then 11 or 15, then eight of 0 or 15 each: 90 is six of 15, and 11 is in none.
+        OptimaWorks six = desk(1, 1 << 11 | 32768, 32769, 32769, 32769, 32769, 32769, 32769, 32769, 32769);
+        six.rule(2, 1023, 90, 90);
+        left("six of 15", six, 1, 32768, 32769, 32769, 32769, 32769, 32769, 32769, 32769, 32769);
+        // Of 0 or 15 each: as many 15s as 75 has.
+        OptimaWorks ten = desk(32769, 32769, 32769, 32769, 32769, 32769, 32769, 32769, 32769, 32769);
+        ten.rule(2, 1023, 61, 89);
+        left("75 is the only sum", ten, 32769, 32769, 32769, 32769, 32769, 32769, 32769, 32769, 32769, 32769);
+        ten.rule(2, 1023, 76, 89);
+        left("none from 76 to 89", ten, 0, 0, 0, 0, 0, 0, 0, 0, 0, 0);
     }
 
     private static void mostRule() {
@@ -385,6 +440,7 @@ public final class ValueEdgesTest {
         C.same("listing(), though", y.listing(), 0);
         y.rule(2, 1, 0, 0);
         left("seen when one is told", y, 0, 0, 0);
+        longWay();
         C.sentence("What is LEFT of a holder's domain, as bits; NONE if there is none such.");
         int[] none = {-1, 4, 10, LEAST, GREATEST};
         for (int h : none) {
@@ -392,6 +448,29 @@ public final class ValueEdgesTest {
         }
         C.same("left(3)", x.left(3), 1 << 15);
         C.same("left(0) of a new object", new OptimaWorks().left(0), NONE);
+    }
+
+    /**
+     * Ten holders in a ring, each as the one before, but for the first, which is one more than the last
+     * (0 behind 15): nothing goes while all are full; without one value all go, a few at a time.
+     */
+    private static void longWay() {
+        int[] order = {0, 2, 4, 6, 8, 1, 3, 5, 7, 9};
+        int[] firsts = {ALL, ALL & ~1, ALL & ~(1 << 7), ALL & ~(1 << 15)};
+        for (int turn = 0; turn < 10; turn++) {
+            for (int first : firsts) {
+                OptimaWorks x = desk(first, ALL, ALL, ALL, ALL, ALL, ALL, ALL, ALL, ALL);
+                for (int i : order) {
+                    int at = (i + turn) % 10;
+                    for (int v = 0; v < 16; v++) {
+                        x.pair(v, at == 9 ? 1 << (v + 1) % 16 : 1 << v);
+                    }
+                    x.rule(4, at, (at + 1) % 10, 0);
+                }
+                int due = first == ALL ? ALL : 0;
+                left("a ring, " + first + " first", x, due, due, due, due, due, due, due, due, due, due);
+            }
+        }
     }
 
     private static void empties() {
