@@ -292,6 +292,11 @@ public final class DoingEdgesTest {
         T.edge(XY + "row r:y/99+x<=1;", 9, XY + "row r:^y/100+x<=1;");
         T.edge(XY + "row r:x/100<=1;", 9, XY + "row r:^x/100+y/3<=1;");
         T.edge(XY + "row r:x/9+y/11<=1;", 9, XY + "row r:^x/9+y/11<=1/13;");
+        // What makes the last number whole makes the first one too great, of either sign.
+        T.edge(XY + "row r:9*x+y<=1/11;", 9, XY + "row r:^10*x+y<=1/10;");
+        T.edge(XY + "row r:-9*x+y<=1/11;", 9, XY + "row r:^-10*x+y<=1/10;");
+        T.edge(XY + "row r:x-9*y>=1/11;", 9, XY + "row r:^x-10*y>=1/10;");
+        T.edge(XY + "row r:x+9*y>=1/11;", 9, XY + "row r:^x+10*y>=1/10;");
         T.edge(XY + "row r:x/9=1/11;", 9, XY + "row r:^x/9=1/101;");
         T.edge(XY + "row r:20*x+999999<=-999981;", 9, XY + "row r:^20*x+999999<=-999999;");
         // 65536 times 65536, 0 as an int, and 99999 times 99999.

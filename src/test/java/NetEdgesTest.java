@@ -100,6 +100,10 @@ public final class NetEdgesTest {
         C.same("one there, tree()", ring.tree(), 5);
         ring.unarc();
         ringOfTwo("behind both", ring);
+        OptimaWorks equal = net(0, 3, 0, 1, 3, 9, 0, 1, 1, 9, 0, 1, 0, 1, 0, 1);
+        C.same("over 1, as cheap", equal.path(0, 9, 1), 1);
+        equal.unarc();
+        C.same("over 3, for the arc to 1 went", equal.path(0, 9, 1), 3);
     }
 
     /** All that a net of 0-1 with room 3 and cost 5 and of 1-0 with room 3 and cost 6 answers. */

@@ -615,7 +615,8 @@ public final class ValueEdgesTest {
         for (int h : none) {
             C.same("reason(" + h + ", 1)", z.reason(h, 1), NONE);
         }
-        int[] noValue = {-1, 16, 32, 33, LEAST, GREATEST};
+        // Among them such as would be a value that is there if they were taken by their lowest bits.
+        int[] noValue = {-1, 16, 17, 18, 32, 33, 34, -32, -31, -30, -16, -15, LEAST, LEAST + 1, LEAST + 2, GREATEST};
         for (int v : noValue) {
             C.same("reason(0, " + v + ")", z.reason(0, v), NONE);
         }

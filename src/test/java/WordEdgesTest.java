@@ -193,6 +193,15 @@ public final class WordEdgesTest {
             T.fault(1, text + " # behind it");
             T.fault(1, text + "#\n#\n");
         }
+        // However long the tape is, it ends with its last byte, be that the beginning of a longer word or not.
+        String[] noFirstWord = {"mi", "differen", "se", "i", "1", "<"};
+        for (int length = 9; length <= 300; length++) {
+            for (String word : noFirstWord) {
+                T.fault(1, " ".repeat(length - word.length()) + "^" + word);
+            }
+            T.fault(2, " ".repeat(length - 1) + "^.");
+            T.fault(1, " ".repeat(length - 3) + "min");
+        }
         String full = "min 1" + " ".repeat(3995);
         T.fault(1, 4000, full);
         T.fine(full.substring(0, 3999) + ";", 0);
