@@ -441,6 +441,25 @@ public final class ValueEdgesTest {
         y.rule(2, 1, 0, 0);
         left("seen when one is told", y, 0, 0, 0);
         longWay();
+        C.sentence("What is LEFT: of all domains, again and again,");
+        // A value that a rule takes from one holder may be the last that another rule had there for a third one.
+        OptimaWorks third = desk(3, 3, 7, 12);
+        third.rule(0, 7, 0, 0);
+        third.rule(1, 2, 1, 3);
+        left("2 is all that is left, then 3", third, 3, 3, 4, 8);
+        C.sentence("(it does not matter in which order)");
+        int[][] rules = {{1, 0, 5, 1}, {1, 1, 4, 2}, {2, 5, 0, 11}, {3, 7, 0, 5}, {0, 7, 0, 0}};
+        for (int turn = 0; turn < 5; turn++) {
+            for (int way = 1; way < 5; way++) {
+                OptimaWorks z = desk(ALL, ALL, ALL);
+                for (int i = 0; i < 5; i++) {
+                    int[] r = rules[(turn + i * way) % 5];
+                    z.rule(r[0], r[1], r[2], r[3]);
+                }
+                // 0 or 1, then 6 or 7, then 10 or 11, of which 1 and 11 are more than 11 together.
+                left("turned by " + turn + ", every " + way, z, 3, 0b11000000, 0b110000000000);
+            }
+        }
         C.sentence("What is LEFT of a holder's domain, as bits; NONE if there is none such.");
         int[] none = {-1, 4, 10, LEAST, GREATEST};
         for (int h : none) {
