@@ -1,24 +1,23 @@
+import java.io.IOException;
 import java.lang.reflect.Constructor;
 import java.lang.reflect.Field;
 import java.lang.reflect.Method;
 import java.lang.reflect.Modifier;
-import java.util.Arrays;
+import java.nio.file.Files;
+import java.nio.file.Path;
 import java.util.HashSet;
 import java.util.Set;
 import java.util.TreeSet;
+import java.util.regex.Matcher;
+import java.util.regex.Pattern;
 
-/** The public face is the document's and nothing else; rule 1 of the language. */
+/** The public face is the document's and nothing else; rule 1 of the language. Run from the project's folder. */
 public final class FaceTest {
-    private static final String[] FACE = {
-        "void feed(int,int,int,int,int)", "int end(int)", "void wipe()", "int read()", "int fault(int)", "int variable(int,int)",
-        "int row(int,int,int)", "int goal(int,int,boolean)", "int write()", "boolean solve(boolean)", "int value(int)", "int best(int)",
-        "int way(int)", "int count()", "int counted(int,int)", "int prove()", "int need(int,int)", "int multiplier(int)",
-        "int letter(int)", "int about(int)", "int holder(int)", "int rule(int,int,int,int)", "boolean pair(int,int)", "int left(int)",
-        "int listing()", "int listed(int,int)", "int reason(int,int)", "void clear()", "int clause(int,int,int)", "boolean unsay()",
-        "int truth(int)", "int arc(int,int,int,int)", "boolean unarc()", "int greatest(int,int)", "int cut(int,int)",
-        "int cheapest(int,int,int)", "int path(int,int,int)", "long tree()", "int tour(int,int)"};
+    private static final Pattern BLOCK = Pattern.compile("(?s)## The public face\\s+```java\n(.*?)```");
+    private static final Pattern METHOD = Pattern.compile("public (\\w+ \\w+)\\(([^)]*)\\)(?: throws ([^;]*))?;");
+    private static final int METHODS = 39;
 
-    public static void main(String[] args) {
+    public static void main(String[] args) throws IOException {
         Checks c = new Checks("FaceTest");
         Class<?> face = OptimaWorks.class;
         c.same("public final", Modifier.toString(face.getModifiers()), "public final");
@@ -31,13 +30,16 @@ public final class FaceTest {
             }
             c.same("public or private: " + m, Modifier.isPublic(m.getModifiers()) || Modifier.isPrivate(m.getModifiers()), true);
         }
-        c.same("methods", found.toString(), new TreeSet<>(Arrays.asList(FACE)).toString());
+        Set<String> due = documentsMethods();
+        c.same("methods of the document", due.size(), METHODS);
+        c.same("methods", found.toString(), due.toString());
         for (Constructor<?> made : face.getDeclaredConstructors()) {
             c.same("constructor " + made, made.toString(), "public OptimaWorks()");
         }
         for (Field f : face.getDeclaredFields()) {
             c.same("field " + f, Modifier.isPrivate(f.getModifiers()) || f.getName().equals("NONE"), true);
         }
+        c.same("NONE", OptimaWorks.NONE, -1);
         for (Method m : face.getDeclaredMethods()) {
             c.same("private, but named as a public one: " + m, !Modifier.isPublic(m.getModifiers()) && names.contains(m.getName()), false);
         }
@@ -50,12 +52,29 @@ public final class FaceTest {
         c.finish();
     }
 
-    private static String told(Method m) {
-        StringBuilder text = new StringBuilder(m.getReturnType().getName()).append(' ').append(m.getName()).append('(');
-        Class<?>[] kinds = m.getParameterTypes();
-        for (int i = 0; i < kinds.length; i++) {
-            text.append(i == 0 ? "" : ",").append(kinds[i].getName());
+    /** As told() writes them: the kind of the answer, the name, the kinds of the parameters, what is thrown. */
+    private static Set<String> documentsMethods() throws IOException {
+        Set<String> due = new TreeSet<>();
+        Matcher block = BLOCK.matcher(Files.readString(Path.of("../shared/DOC.md")));
+        Matcher method = METHOD.matcher(block.find() ? block.group(1) : "");
+        while (method.find()) {
+            String kinds = method.group(2).replaceAll(" \\w+(, |$)", "$1");
+            due.add(method.group(1) + "(" + kinds + ")" + (method.group(3) == null ? "" : " throws " + method.group(3)));
         }
-        return text.append(')').toString();
+        return due;
+    }
+
+    private static String told(Method m) {
+        StringBuilder text = new StringBuilder(m.getReturnType().getName()).append(' ').append(m.getName());
+        text.append('(').append(listed(m.getParameterTypes())).append(')');
+        return text.append(m.getExceptionTypes().length == 0 ? "" : " throws ").append(listed(m.getExceptionTypes())).toString();
+    }
+
+    private static String listed(Class<?>[] kinds) {
+        StringBuilder text = new StringBuilder();
+        for (Class<?> kind : kinds) {
+            text.append(text.length() == 0 ? "" : ", ").append(kind.getSimpleName());
+        }
+        return text.toString();
     }
 }
